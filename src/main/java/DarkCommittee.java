@@ -853,7 +853,6 @@ public final class DarkCommittee {
             int bird = Math.min(birds, BIRDS - 1);
             stand.trees[bird] = tree;
             ranges[bird] = range;
-            // behind BACK a later BIRD's FAVOUR may still stand here
             for (int m = 0; m < MATTERS; m++) {
                 favours[bird * MATTERS + m] = 0;
             }

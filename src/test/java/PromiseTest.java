@@ -58,6 +58,7 @@ public final class PromiseTest {
         lawsAreAsked();
         brokenSums();
         limitsOfTexts();
+        manyTextsOfOne();
         promise13Orders();
         ordersAreWhole();
         promise14Fault();
@@ -209,6 +210,13 @@ public final class PromiseTest {
         x.move(0, 1);
         due("moved", x.at(0, 2), 1);
         due("a division can be", x.at(0, 6), 1);
+        x.favour(0, 0, 0);
+        x.favour(2, 0, 0);
+        due("ayes anew", x.at(0, 5), 0);
+        due("of no ayes, too", x.at(0, 6), 1);
+        x.fly(1, -1);
+        due("sitting anew", x.at(0, 4), 5);
+        x.fly(1, 4);
         due("asked alone: still moved", x.at(0, 2), 1);
         due("asked alone: no time", x.count(3), 0);
         x.terms(3, 3);
@@ -297,6 +305,14 @@ public final class PromiseTest {
         due("room for four", x.row(), 4);
         due("two had none", x.cats(), 2);
         due("seven birds", x.count(0), 7);
+        DarkCommittee y = fresh();
+        y.feed(0x01010101, 0x01010101, 0x01010101, 0x01010101, 0);
+        y.end(15);
+        due("one that is whole", y.row(), 1);
+        due("one that is not", y.cats(), 1);
+        y.feed(0x01010101, 0x01010101, 0x01010101, 0x01010101, 0);
+        due("two more, but four bytes", y.row(), 2);
+        due("four bytes are a cat", y.cats(), 1);
         x.pass();
         Copse.feed(x, 99);
         due("a cat alone", x.row(), 0);
@@ -402,6 +418,8 @@ public final class PromiseTest {
     private static void brokenSums() {
         due("1,000,000,000", swayedBy("sways 1 if 1000*1000*1000 > 0", 0), 1);
         due("beyond it", swayedBy("sways 1 if 1000*1000*1000+1 > 0", 0), 6);
+        due("1,000,000,000 below", swayedBy("sways 1 if 0-1000*1000*1000 < 0", 0), 1);
+        due("beyond on the way", swayedBy("sways 1 if 1000*1000*1000+1-1 > 0", 0), 6);
         due("beyond it below", swayedBy("sways 1 if 0-1000*1000*1000-1 < 0", 0), 6);
         due("broken by not", swayedBy("sways 1 if not 1/0 = 1", 0), 6);
         due("left over by 0", swayedBy("sways 1%0", 0), 6);
@@ -465,6 +483,9 @@ public final class PromiseTest {
         due("a byte beyond 127", faultOf("sways \u00e9"), 6);
         due("a byte of 0", faultOf("sways 1\0"), 7);
         due("longer than a word", faultOf("swayss 1"), 0);
+        due("a word goes on to z", faultOf("sways richz"), 6);
+        due("a word goes on from a", faultOf("sways richa"), 6);
+        due("a number goes on with 9 and 0", faultOf("sways 10 + 109 + 90 + 9"), -1);
         due("shorter than a word", faultOf("sways ric"), 6);
         due("a test where a sum is", faultOf("sways (1)"), 6);
         due("no sign", faultOf("bars if 1 and 2=2"), 10);
@@ -496,6 +517,18 @@ public final class PromiseTest {
         due("a law's word in orders", faultOfOrders("divide rich"), 7);
         due("sways in orders", faultOfOrders("sways 1"), 0);
         due("pass with a sum", faultOfOrders("pass 1"), 5);
+    }
+
+    private static void manyTextsOfOne() {
+        DarkCommittee x = together(9, 9);
+        String one = "fly 0 to [tree 0 + 1 + 0 + 0 + 0 + 0 + 0 + 0] % 20 if (1 = 1 or 2 = 2) and 3 = 3";
+        for (int i = 1; i <= 60; i++) {
+            due("orders " + i, Copse.orders(x, one), 1);
+            due("flown on " + i, x.of(0, 0), (4 + i) % 20);
+            due("no law " + i, Copse.law(x, "sways 1 + 2 + 3 + 4 + 5 +"), -6);
+        }
+        due("parts are counted anew", Copse.law(x, "sways 1" + again("+0", 49)), 0);
+        due("and again", Copse.law(x, "sways 1" + again("+1", 49)), 1);
     }
 
     private static void promise13Orders() {
@@ -864,6 +897,7 @@ public final class PromiseTest {
         Copse.inForce(x, "takes 3 if matter = 5;sways 0 if matter = 2");
         due("5 is done at 48", x.byClock(48), 20);
         due("lost take time, too", x.byClock(47), 15);
+        due("c 0", x.byClock(0), 0);
         due("c 49", x.byClock(49), -1);
         due("c -1", x.byClock(-1), -1);
         due("on paper", x.at(0, 2), 1);
@@ -1003,6 +1037,10 @@ public final class PromiseTest {
         due("two short of 16", x.nearest(0, 0), 14);
         x.favour(1, 0, 9);
         due("as far: the lowest", x.nearest(0, 0), 6);
+        x.fly(1, 0);
+        x.fly(0, -1);
+        due("tree 0", x.nearest(0, 0), 0);
+        x.fly(1, 4);
         x.fly(0, 17);
         due("its own", x.nearest(0, 0), 17);
         x.fly(0, -1);
@@ -1286,6 +1324,11 @@ public final class PromiseTest {
         due("nothing can be undone", x.undo(), -3);
         due("images stay", x.back(0), 0);
         due("images stay", x.count(0), 2);
+        x.bird(5, 9);
+        x.matter(9, 9);
+        due("another range, clauses, rich", x.of(2, 1) * 100 + x.at(1, 0) * 10 + x.at(1, 1), 999);
+        x.back(1);
+        due("its own range, clauses, rich", x.of(2, 1) * 100 + x.at(1, 0) * 10 + x.at(1, 1), 322);
     }
 
     private static void promise41Count() {
