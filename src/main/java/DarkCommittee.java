@@ -41,7 +41,6 @@ public final class DarkCommittee {
     private static final int MOST_TIMES = 20;
     private static final long BEYOND = 1000000000L;
     private static final int MOST_DUMB = 20;
-    private static final int ALL = -1;
 
     // What TOKENS are: a single byte is its own number, words are numbered as WORDS has them.
     private static final String WORDS =
@@ -585,20 +584,18 @@ public final class DarkCommittee {
         if (roll.timesHeard >= HEARINGS) {
             return refuse(NO_ROOM);
         }
-        roll.possible &= council.mattersWithAyes(roll.stand, ayes);
-        roll.timesHeard++;
+        roll.hear(ayes);
         return accept(roll.timesHeard);
     }
 
     public int forget() {
         int was = roll.timesHeard;
         roll.timesHeard = 0;
-        roll.possible = ALL;
         return was;
     }
 
     public int canBe() {
-        return roll.matters >= 0 && roll.matters <= MATTERS ? roll.possible & (1 << roll.matters) - 1 : 0;
+        return council.mattersAsHeard(roll.stand);
     }
 
     public int listen(int what) {
@@ -810,8 +807,8 @@ public final class DarkCommittee {
         int mood;
         int quorum = 1;
         int timesHeard;
-        // the MATTERS on which all that was HEARD were so when it was HEARD: a later change does not unsay it
-        int possible = ALL;
+        // numbers alone: which MATTERS they fit is asked anew each time, as of a DIVISION now
+        final int[] ayesHeard = new int[HEARINGS];
         int lawCount;
         final Text[] laws = new Text[LAWS];
         final Text noLaw = new Text(0, 0);
@@ -830,7 +827,7 @@ public final class DarkCommittee {
             mood = other.mood;
             quorum = other.quorum;
             timesHeard = other.timesHeard;
-            possible = other.possible;
+            System.arraycopy(other.ayesHeard, 0, ayesHeard, 0, HEARINGS);
             lawCount = other.lawCount;
             System.arraycopy(other.laws, 0, laws, 0, LAWS);
             inForce = other.inForce;
@@ -868,6 +865,24 @@ public final class DarkCommittee {
             rich[matter] = richOfIt;
             matters = matter + 1;
             return matter;
+        }
+
+        /** Called when there is room alone. */
+        void hear(int ayes) {
+            if (timesHeard >= 0 && timesHeard < HEARINGS) {
+                ayesHeard[timesHeard] = ayes;
+                timesHeard++;
+            }
+        }
+
+        /** Whether all that was HEARD is that number of AYES. */
+        boolean fitsAllHeard(int ayes) {
+            for (int i = 0; i < timesHeard && i < HEARINGS; i++) {
+                if (ayesHeard[i] != ayes) {
+                    return false;
+                }
+            }
+            return true;
         }
 
         Text lawInForce() {
@@ -1658,11 +1673,11 @@ public final class DarkCommittee {
             return true;
         }
 
-        int mattersWithAyes(Stand s, int many) {
+        int mattersAsHeard(Stand s) {
             int matters = 0;
             for (int m = 0; m < roll.matters; m++) {
                 poll(s, m, roll.lawInForce());
-                matters |= Integer.bitCount(ayes) == many ? 1 << m : 0;
+                matters |= roll.fitsAllHeard(Integer.bitCount(ayes)) ? 1 << m : 0;
             }
             return matters;
         }

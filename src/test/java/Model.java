@@ -355,7 +355,7 @@ final class Model {
         List<Matter> matters = new ArrayList<>();
         int clock;
         int[] terms = {0, 1, 0, 1};
-        List<List<Integer>> heard = new ArrayList<>();
+        List<Integer> heard = new ArrayList<>();
         List<List<Clause>> laws = new ArrayList<>();
         int force = -1;
 
@@ -1092,13 +1092,7 @@ final class Model {
         if (s.heard.size() == 6) {
             return refuse(-5);
         }
-        List<Integer> so = new ArrayList<>();
-        for (int m = 0; m < s.matters.size(); m++) {
-            if (Integer.bitCount(s.ayes(m)) == ayes) {
-                so.add(m);
-            }
-        }
-        s.heard.add(so);
+        s.heard.add(ayes);
         return ok(s.heard.size());
     }
 
@@ -1112,8 +1106,8 @@ final class Model {
         int bits = 0;
         for (int m = 0; m < s.matters.size(); m++) {
             boolean can = true;
-            for (List<Integer> so : s.heard) {
-                can &= so.contains(m);
+            for (int ayes : s.heard) {
+                can &= Integer.bitCount(s.ayes(m)) == ayes;
             }
             bits |= can ? 1 << m : 0;
         }

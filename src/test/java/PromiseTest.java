@@ -1097,14 +1097,42 @@ public final class PromiseTest {
         due("all", x.canBe(), 15);
         x.heard(2);
         due("1 and 2 have two ayes", x.canBe(), 6);
+        x.heard(2);
+        due("heard twice, it is no more", x.canBe(), 6);
         x.fly(1, -1);
-        due("what was heard stays heard", x.canBe(), 6);
-        x.heard(1);
-        due("now 2 has one", x.canBe(), 4);
+        due("were there a division now: 1 and 3", x.canBe(), 10);
+        Copse.inForce(x, "bars if bird = 2 and matter = 3");
+        due("by the law in force now: 1 alone", x.canBe(), 2);
+        x.force(-1);
+        x.favour(0, 1, 4);
+        due("by favour as it is now: 3 alone", x.canBe(), 8);
         x.matter(1, 1);
-        due("a matter that was not there then", x.canBe(), 4);
+        due("a later matter without ayes", x.canBe(), 8);
+        x.favour(0, 4, 5);
+        x.favour(2, 4, 5);
+        due("a later matter with two", x.canBe(), 24);
+        x.heard(1);
+        due("two and one it can't be at once", x.canBe(), 0);
+        x.forget();
+        x.heard(1);
+        due("one alone: 1 and 2", x.canBe(), 6);
+        canBeOfNobody();
+    }
+
+    private static void canBeOfNobody() {
+        DarkCommittee x = fresh();
         x.heard(0);
-        due("none", x.canBe(), 0);
+        due("no matters", x.canBe(), 0);
+        x.matter(1, 0);
+        due("no birds, so no ayes", x.canBe(), 1);
+        x.bird(3, 3);
+        x.favour(0, 0, 9);
+        due("one aye now", x.canBe(), 0);
+        x.terms(3, 7);
+        x.fly(0, -1);
+        due("none again, whatever the quorum", x.canBe(), 1);
+        x.undo();
+        due("undone: one aye", x.canBe(), 0);
     }
 
     private static void promise34Listen() {
@@ -1329,6 +1357,24 @@ public final class PromiseTest {
         due("another range, clauses, rich", x.of(2, 1) * 100 + x.at(1, 0) * 10 + x.at(1, 1), 999);
         x.back(1);
         due("its own range, clauses, rich", x.of(2, 1) * 100 + x.at(1, 0) * 10 + x.at(1, 1), 322);
+        backToWhatWasHeard();
+    }
+
+    private static void backToWhatWasHeard() {
+        DarkCommittee x = together(9, 9);
+        x.matter(1, 1);
+        x.heard(2);
+        x.image(0);
+        x.forget();
+        x.heard(0);
+        x.image(1);
+        due("none: matter 1", x.canBe(), 2);
+        x.back(0);
+        due("two: matter 0", x.canBe(), 1);
+        x.favour(1, 0, 0);
+        due("as it is now", x.canBe(), 0);
+        x.back(1);
+        due("none again", x.canBe(), 2);
     }
 
     private static void promise41Count() {
