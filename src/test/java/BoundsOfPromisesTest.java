@@ -62,6 +62,27 @@ public final class BoundsOfPromisesTest {
         }
     }
 
+    private static void promise3Favour() {
+        says("FAVOUR of a BIRD for a MATTER 0 .. 5 (there or not): what it was. -1; -2.");
+        DarkCommittee x = Copse.birds(new int[] {4, 1}, new int[] {4, 1});
+        refused("matter -1", x, x.favour(0, -1, 9), -1);
+        refused("matter 6", x, x.favour(0, 6, 9), -1);
+        refused("n -1", x, x.favour(0, 0, -1), -1);
+        refused("n 10", x, x.favour(0, 0, 10), -1);
+        refused("bird -1", x, x.favour(-1, 0, 9), -2);
+        refused("bird 2", x, x.favour(2, 0, 9), -2);
+        for (int m = 0; m < 6; m++) {
+            due("it was none", x.favour(1, m, 9 - m), 0);
+            due("it was", x.favour(1, m, 4 + m), 9 - m);
+            due("no matter yet", x.of(1, 9 + m), -1);
+        }
+        for (int m = 0; m < 6; m++) {
+            x.matter(1, 1);
+            due("swayed, once there", x.of(1, 9 + m), 4 + m);
+            due("the other is not", x.of(0, 9 + m), 0);
+        }
+    }
+
     private static void promise4Of() {
         says("SWAYED on it (9 + m; NONE: no such MATTER), 0 it WITHDRAWS or is AWAY, 1 it is a NO, 2 an AYE (15 + m;");
         for (int matters = 0; matters <= 6; matters++) {
@@ -79,6 +100,44 @@ public final class BoundsOfPromisesTest {
             due("what -1", x.of(0, -1), -1);
             due("no bird 1", x.of(1, 0), -1);
         }
+    }
+
+    private static void promise5Matter() {
+        says("`int matter(int clauses, int rich)`: A MATTER: its number. -1; -5.");
+        DarkCommittee x = Copse.birds(new int[] {4, 9, 9, 9, 9, 9, 9, 9}, new int[] {4, 9, 9, 9, 9, 9, 9, 9});
+        for (int m = 0; m < 6; m++) {
+            refused("clauses 0", x, x.matter(0, 0), -1);
+            refused("clauses 10", x, x.matter(10, 0), -1);
+            refused("rich -1", x, x.matter(1, -1), -1);
+            refused("rich 10", x, x.matter(1, 10), -1);
+            due("its number", x.matter(9 - m, m), m);
+            due("it lies", x.at(m, 2), 0);
+            due("clauses, rich", x.at(m, 0) * 10 + x.at(m, 1), (9 - m) * 10 + m);
+            due("it takes", x.at(m, 3), 9 - m);
+            due("moved", x.move(m, 0), 1);
+        }
+        refused("no room", x, x.matter(1, 1), -5);
+        for (int m = 0; m < 6; m++) {
+            due("all are moved", x.at(m, 2), 1);
+        }
+    }
+
+    private static void promise6EachNumber() {
+        says("Of a MATTER CLAUSES (what 0), RICH (1), 0 it LIES, 1 MOVED, 2 CARRIED, 3 LOST (2), what it TAKES (3),");
+        DarkCommittee x = Copse.birds(new int[] {4, 9, 9}, new int[] {4, 9, 9}, new int[] {4, 9, 0},
+                new int[] {-1, 9, 9});
+        x.matter(6, 7);
+        Copse.inForce(x, "takes 2; bars if bird = 1 and mood = 1");
+        x.terms(2, 1);
+        int[] want = {6, 7, 0, 2, 5, 1, 0};
+        for (int what = 0; what < 7; what++) {
+            due("what " + what, x.at(0, what), want[what]);
+            due("no matter: what " + what, x.at(1, what) + x.at(-1, what), -2);
+        }
+        x.terms(2, 0);
+        due("sitting, ayes", x.at(0, 4) * 10 + x.at(0, 5), 73);
+        due("what 7", x.at(0, 7), -1);
+        due("what -1", x.at(0, -1), -1);
     }
 
     private static void promise6At() {
@@ -175,6 +234,36 @@ public final class BoundsOfPromisesTest {
         due("fifty", x.cats(), 50);
     }
 
+    private static void promise12Law() {
+        says("`int law()`: The TAPE, which is empty then, becomes a LAW: its number.");
+        DarkCommittee x = fresh();
+        for (int l = 0; l < 6; l++) {
+            refused("none", x, Copse.law(x, "bars;"), -6);
+            due("empty then", x.count(7), 0);
+            due("its number", Copse.law(x, "bars"), l);
+            due("empty then", x.count(7), 0);
+            due("how many", x.count(5), l + 1);
+        }
+        refused("a seventh", x, Copse.law(x, "bars"), -5);
+        due("empty then", x.count(7), 0);
+    }
+
+    private static void promise13Orders() {
+        says("`int orders()`: ORDERS, the TAPE is empty then: how many were run.");
+        DarkCommittee x = fresh();
+        due("none", Copse.orders(x, "pass if 1=2" + Copse.again("; pass if 1=2", 11)), 0);
+        due("empty then", x.count(7), 0);
+        due("one", Copse.orders(x, "pass"), 1);
+        due("twelve times twenty", Copse.orders(x, "pass times 20" + Copse.again("; pass times 20", 11)), 240);
+        due("nights", x.count(14), 241);
+        due("sixteen are kept", x.count(6), 16);
+        refused("one can't be", x, Copse.orders(x, "pass; divide 0"), -3);
+        due("empty then", x.count(7), 0);
+        refused("none is read", x, Copse.orders(x, "pass; divide"), -6);
+        due("empty then", x.count(7), 0);
+        due("nights", x.count(14), 241);
+    }
+
     private static void promise14Fault() {
         says("FAULT of the latest law(), orders() that read a TEXT: its place; NONE without.");
         DarkCommittee x = fresh();
@@ -248,6 +337,136 @@ public final class BoundsOfPromisesTest {
         due("none", x.force(-1), 0);
         due("none in force", x.count(13), -1);
         due("undone can be", x.undo(), 3);
+    }
+
+    private static void promise17Move() {
+        says("`int move(int matter, int bird)`: To MOVE: the lowest BIRD who would SECOND it. -2; -3.");
+        for (int aye = 0; aye < 7; aye++) {
+            DarkCommittee x = fresh();
+            for (int b = 0; b < 7; b++) {
+                x.bird(b, 9);
+                x.favour(b, 0, b >= aye ? 9 : 0);
+            }
+            refused("no matter 0", x, x.move(0, 0), -2);
+            x.matter(1, 1);
+            refused("no bird 7", x, x.move(0, 7), -2);
+            refused("no matter -1", x, x.move(-1, 0), -2);
+            int by = aye == 0 ? 1 : aye;
+            due("seconded from " + aye + " on", x.move(0, 0), by);
+            x.undo();
+            due("moved by the lowest aye", x.move(0, aye), aye == 6 ? -3 : aye + 1);
+            due("it stands", x.at(0, 2), aye == 6 ? 0 : 1);
+        }
+    }
+
+    private static void promise17NobodyElse() {
+        says("`int move(int matter, int bird)`: To MOVE: the lowest BIRD who would SECOND it. -2; -3.");
+        DarkCommittee x = Copse.birds(new int[] {0, 9, 9});
+        x.matter(1, 1);
+        Copse.inForce(x, "sways 9");
+        refused("none is beside it", x, x.move(0, 0), -3);
+        due("none is beside it", x.second(0, 0), -1);
+        due("nowhere", x.nearest(0, 0), -1);
+        DarkCommittee y = Copse.willing(7, 1, 1, 1);
+        for (int b = 0; b < 7; b++) {
+            y.favour(b, 0, 4);
+        }
+        for (int b = 0; b < 7; b++) {
+            refused("none of seven is an aye", y, y.move(0, b), -3);
+            due("none of seven is an aye", y.second(0, b), -1);
+        }
+    }
+
+    private static void promise18Divide() {
+        says("`int divide(int matter)`: To DIVIDE: how many AYES. -2; -3.");
+        for (int ayes = 0; ayes <= 7; ayes++) {
+            DarkCommittee x = Copse.willing(7, 2, 1, 1);
+            x.move(0, 0);
+            for (int b = ayes; b < 7; b++) {
+                x.favour(b, 0, 4);
+            }
+            refused("no matter 2", x, x.divide(2), -2);
+            refused("no matter -1", x, x.divide(-1), -2);
+            refused("it lies", x, x.divide(1), -3);
+            due("ayes " + ayes, x.divide(0), ayes);
+            refused("it is done", x, x.divide(0), -3);
+            due("it stands", x.at(0, 2), ayes > 3 ? 2 : 3);
+        }
+    }
+
+    private static void promise19Fly() {
+        says("To FLY to a TREE (NONE: AWAY): where it was (0 .. 19; 20: AWAY). -1; -2; -3 it is there.");
+        DarkCommittee x = Copse.birds(new int[] {-1, 0});
+        refused("away", x, x.fly(0, -1), -3);
+        for (int tree = 0; tree < 20; tree++) {
+            due("from away", x.fly(0, tree), 20);
+            refused("it is there", x, x.fly(0, tree), -3);
+            due("away", x.fly(0, -1), tree);
+            due("back", x.fly(0, tree), 20);
+            due("on", x.fly(0, 19 - tree), tree);
+            due("away", x.fly(0, -1), 19 - tree);
+        }
+        refused("tree 20", x, x.fly(0, 20), -1);
+        refused("tree -2", x, x.fly(0, -2), -1);
+        refused("bird 1", x, x.fly(1, 0), -2);
+        refused("bird -1", x, x.fly(-1, 0), -2);
+    }
+
+    private static void promise20Pass() {
+        says("`int pass()`: A NIGHT: how many MATTERS LIE then. -3.");
+        for (int matters = 0; matters <= 6; matters++) {
+            for (int carried = 0; carried <= matters; carried++) {
+                DarkCommittee x = Copse.willing(3, matters, 1, 1);
+                for (int m = 0; m < matters; m++) {
+                    x.move(m, 0);
+                }
+                for (int m = 0; m < carried; m++) {
+                    x.divide(m);
+                }
+                due(carried + " carried of " + matters, x.pass(), matters - carried);
+                due("again", x.pass(), matters - carried);
+                due("two nights", x.count(14), 2);
+            }
+        }
+        DarkCommittee x = Copse.willing(3, 6, 1, 1);
+        x.terms(0, 999);
+        refused("at 999", x, x.pass(), -3);
+        x.terms(0, 998);
+        due("at 998", x.pass(), 6);
+    }
+
+    private static long[] stand(DarkCommittee x) {
+        long[] seen = new long[15];
+        for (int b = 0; b < 7; b++) {
+            seen[b] = x.of(b, 0);
+        }
+        for (int m = 0; m < 6; m++) {
+            seen[7 + m] = x.at(m, 2);
+        }
+        seen[13] = x.count(3);
+        seen[14] = x.count(14);
+        return seen;
+    }
+
+    private static void promise21AllThatStands() {
+        says("(how MATTERS stand, TREES, CLOCK, NIGHT are as they were): 0 .. 3. -3 there is none");
+        DarkCommittee x = Copse.willing(7, 6, 2, 1);
+        x.terms(0, 7);
+        String[] acts = {"pass", "move 5 by 6", "fly 6 to 19", "divide 5", "fly 0 to 0-1", "move 0 by 1", "divide 0",
+            "pass", "fly 6 to 0", "move 4 by 3", "pass"};
+        int[] kinds = {3, 0, 2, 1, 2, 0, 1, 3, 2, 0, 3};
+        long[][] ahead = new long[acts.length][];
+        for (int i = 0; i < acts.length; i++) {
+            ahead[i] = stand(x);
+            due(acts[i], Copse.orders(x, acts[i]), 1);
+        }
+        for (int i = acts.length - 1; i >= 0; i--) {
+            due("undo " + acts[i], x.undo(), kinds[i]);
+            long[] then = stand(x);
+            for (int k = 0; k < then.length; k++) {
+                due("as ahead of " + acts[i] + ": " + k, then[k], ahead[i][k]);
+            }
+        }
     }
 
     private static void promise21Sixteen() {
@@ -440,6 +659,99 @@ public final class BoundsOfPromisesTest {
         due("it is no call that status() tells of", x.status(), -1);
     }
 
+    private static void build(DarkCommittee x, int kind) {
+        for (int b = 0; b < 7; b++) {
+            x.bird(kind == 0 ? 2 * b : 18 - b, kind == 0 ? b + 2 : 9 - b);
+            for (int m = 0; m < 6; m++) {
+                x.favour(b, m, kind == 0 ? (b + m) % 10 : 9 - (b + m) % 5);
+            }
+        }
+        for (int m = 0; m < 6; m++) {
+            x.matter(kind == 0 ? m + 1 : 9 - m, kind == 0 ? m + 2 : 9 - m);
+            Copse.law(x, "sways " + (m + 4 * kind) + " if mood > 8; takes " + (m + 1 + kind));
+            x.heard(kind == 0 ? 3 : m);
+        }
+        for (int term = 0; term < 4; term++) {
+            x.terms(term, kind == 0 ? term + 1 : term + 3);
+        }
+        x.force(kind == 0 ? 5 : 0);
+        for (int m = 0; m < 6; m++) {
+            x.move(m, kind == 0 ? m : 5 - m);
+        }
+        x.divide(5 * kind);
+        x.divide(3);
+    }
+
+    private static long[] everything(DarkCommittee x) {
+        long[] seen = new long[110];
+        for (int b = 0; b < 7; b++) {
+            for (int what = 0; what < 9; what++) {
+                seen[9 * b + what] = x.of(b, what);
+            }
+        }
+        for (int m = 0; m < 6; m++) {
+            for (int what = 0; what < 6; what++) {
+                seen[63 + 6 * m + what] = x.at(m, what);
+            }
+        }
+        int[] counts = {0, 1, 2, 3, 4, 5, 13, 14, 15, 16, 17};
+        for (int i = 0; i < counts.length; i++) {
+            seen[99 + i] = x.count(counts[i]);
+        }
+        return seen;
+    }
+
+    private static void promise39And40AllThatIsKept() {
+        says("BACK to one all that it keeps is as it was then (IMAGES stay).");
+        for (int kind = 0; kind < 2; kind++) {
+            DarkCommittee twin = fresh();
+            build(twin, kind);
+            long[] want = everything(twin);
+            DarkCommittee x = fresh();
+            x.image(0);
+            build(x, kind);
+            x.image(1);
+            x.back(0);
+            due("empty again", x.count(0) + x.count(2) + x.count(5) + x.count(4), 0);
+            build(x, 1 - kind);
+            due("back", x.back(1), 0);
+            long[] seen = everything(x);
+            for (int i = 0; i < want.length; i++) {
+                due("kind " + kind + ": " + i, seen[i], want[i]);
+            }
+            int laws = 0;
+            for (int l = 0; l < 6; l++) {
+                laws += x.force(l) + x.at(0, 3) - twin.force(l) - twin.at(0, 3);
+            }
+            due("kind " + kind + ": laws", laws, 0);
+            due("kind " + kind + ": heard", x.canBe(), twin.canBe());
+        }
+    }
+
+    private static void promise39Image() {
+        says("`int image(int k)`: IMAGE k is kept: 0; -1.");
+        DarkCommittee x = fresh();
+        refused("-1", x, x.image(-1), -1);
+        due("0", x.image(0), 0);
+        due("1", x.image(1), 0);
+        refused("2", x, x.image(2), -1);
+    }
+
+    private static void promise40Back() {
+        says("`int back(int k)`: BACK to IMAGE k: 0. -1; -2 it was not kept.");
+        DarkCommittee x = fresh();
+        refused("-1", x, x.back(-1), -1);
+        refused("2", x, x.back(2), -1);
+        for (int k = 0; k < 2; k++) {
+            refused("not kept", x, x.back(k), -2);
+            x.image(2);
+            refused("not kept", x, x.back(k), -2);
+            x.image(k);
+            due("kept", x.back(k), 0);
+            due("kept still", x.back(k), 0);
+        }
+    }
+
     private static void promise41Count() {
         says("8 .. 12 how many calls were REFUSED by -1, -2, -3, -5, -6 (IMAGES do not keep that)");
         DarkCommittee x = Copse.willing(7, 1, 1, 1);
@@ -468,6 +780,7 @@ public final class BoundsOfPromisesTest {
     }
 
     private static void promise41Each() {
+        says("0 BIRDS, 1 how many are not AWAY, 2 MATTERS, 3 CLOCK, 4 HEARD, 5 LAWS");
         says("13 the LAW in FORCE, 14 .. 17 TERMS 0 .. 3. NONE for others.");
         DarkCommittee x = fresh();
         due("-1", x.count(-1), -1);

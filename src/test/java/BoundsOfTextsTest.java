@@ -242,6 +242,9 @@ public final class BoundsOfTextsTest {
             orders("divide " + sums, deep <= 8 ? -1 : 15);
             orders("pass if " + tests, deep <= 8 ? -1 : 16);
             orders("fly " + sums + " to " + sums, deep <= 8 ? -1 : 12);
+            orders("fly 1 to " + sums, deep <= 8 ? -1 : 17);
+            orders("move 1 by " + sums, deep <= 8 ? -1 : 18);
+            orders("pass if 1 < " + sums, deep <= 8 ? -1 : 20);
         }
         law("sways " + again("[", 8) + "1" + again("]", 8) + "+" + again("[", 8) + "1" + again("]", 8), -1);
         law("sways " + again("[", 8) + "1" + again("]", 8) + "+" + again("[", 9) + "1" + again("]", 9), 32);

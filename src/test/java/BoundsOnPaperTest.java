@@ -165,6 +165,7 @@ public final class BoundsOnPaperTest {
         spoiltBy("one below quorum", votes(4, 9, 9, 9), 0, 0);
         spoiltBy("just quorum: the lowest, a no", votes(3, 0, 9, 9), 1, 1);
         spoiltBy("one above quorum: two, or one aye", votes(3, 0, 0, 9, 9, 9), 1, 4);
+        spoiltBy("just above quorum: two noes, or one aye", votes(4, 0, 0, 9, 9, 9), 1, 4);
         spoiltBy("two above quorum: three ayes or three", votes(3, 0, 9, 9, 9, 9), 3, 7);
         spoiltBy("the same, but a no that stays", votes(2, 0, 9, 9, 9, 9), 3, 14);
         DarkCommittee x = votes(1, 0, 9, 9, 9);
@@ -372,6 +373,29 @@ public final class BoundsOnPaperTest {
         due("it stays away", y.of(0, 0), -1);
     }
 
+    private static void nearestWhereItSits() {
+        says("NEAREST: the TREE in which a BIRD, were it there, would be SITTING on a MATTER");
+        DarkCommittee x = Copse.birds(new int[] {18, 9, 0}, new int[] {19, 9, 9});
+        x.matter(1, 1);
+        int[] bars = {17, 18, 19};
+        int[] nearest = {18, 19, -1};
+        for (int i = 0; i < 3; i++) {
+            Copse.inForce(x, "bars if bird = 0 and not tree > " + bars[i]);
+            due("not in " + bars[i] + " or below", x.nearest(0, 0), nearest[i]);
+        }
+        Copse.inForce(x, "bars if bird = 0 and tree > 0 or bird = 0 and tree < 0");
+        due("in 0 alone: too far to be heard", x.nearest(0, 0), -1);
+        x.fly(1, 9);
+        due("in 0 alone: just heard", x.nearest(0, 0), 0);
+        DarkCommittee y = Copse.birds(new int[] {5, 9, 9});
+        y.matter(1, 1);
+        due("none but itself", y.nearest(0, 0), -1);
+        due("no bird 1", y.nearest(1, 0), -1);
+        due("no bird -1", y.nearest(-1, 0), -1);
+        due("no matter 1", y.nearest(0, 1), -1);
+        due("no matter -1", y.nearest(0, -1), -1);
+    }
+
     private static void itCanBe() {
         says("IT CAN BE: MATTERS on which all that was HEARD were so.");
         due("no matters", new DarkCommittee().canBe(), 0);
@@ -425,6 +449,17 @@ public final class BoundsOnPaperTest {
         listens("away it is an aye on none", y, 3, 4);
         y.heard(7);
         listens("it can be none", y, -1, -1);
+    }
+
+    private static void toListenForOneThatWithdraws() {
+        says("the more of those on which it is an AYE and those on which it is not are as few as can be; the lowest.");
+        DarkCommittee x = Copse.willing(7, 6, 1, 1);
+        Copse.inForce(x, "bars if bird = 4 and matter < 3 or bird = 5 and matter < 2");
+        listens("4 withdraws from half of them", x, 4, 3);
+        x.fly(4, -1);
+        listens("5 withdraws from a third", x, 5, 4);
+        x.heard(6);
+        listens("of those left: an aye on all or none", x, 0, 4);
     }
 
     private static void compared() {

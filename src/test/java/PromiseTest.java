@@ -42,59 +42,12 @@ public final class PromiseTest {
         due(what + ": status", x.status(), by);
     }
 
-    public static void main(String[] args) {
-        promise1NewObject();
-        promise2Bird();
-        promise3Favour();
-        promise4Of();
-        promise5Matter();
-        promise6At();
-        promise7Terms();
-        promise8Feed();
-        promise9End();
-        promise10Row();
-        promise11Cats();
-        promise12Law();
-        lawsAreAsked();
-        brokenSums();
-        limitsOfTexts();
-        manyTextsOfOne();
-        promise13Orders();
-        ordersAreWhole();
-        promise14Fault();
-        promise15Stopped();
-        promise16Force();
-        promise17Move();
-        promise18Divide();
-        promise19Fly();
-        promise20Pass();
-        promise21Undo();
-        promise22Second();
-        promise23Richest();
-        richestByTheClock();
-        promise24ByClock();
-        promise25Spoilt();
-        promise26Come();
-        promise27Chain();
-        promise28Ears();
-        promise29Loudest();
-        promise30Nearest();
-        promise31Heard();
-        promise32Forget();
-        promise33CanBe();
-        promise34Listen();
-        promise35Few();
-        promise36Compare();
-        promise37Mays();
-        promise38Drawn();
-        promise39Image();
-        promise40Back();
-        promise41Count();
-        promise42Status();
-        Copse.finish();
+    public static void main(String[] args) throws IllegalAccessException {
+        Copse.runAll(PromiseTest.class);
     }
 
     private static void promise1NewObject() {
+        Copse.says("`DarkCommittee()`");
         DarkCommittee x = fresh();
         int[] counts = {0, 0, 0, 0, 0, 0, 0, 0, 0, 0, 0, 0, 0, -1, 0, 1, 0, 1};
         for (int what = 0; what < counts.length; what++) {
@@ -110,6 +63,7 @@ public final class PromiseTest {
     }
 
     private static void promise2Bird() {
+        Copse.says("`int bird(int tree, int range)`");
         DarkCommittee x = fresh();
         due("bird", x.bird(19, 9), 0);
         due("bird away", x.bird(-1, 0), 1);
@@ -131,6 +85,7 @@ public final class PromiseTest {
     }
 
     private static void promise3Favour() {
+        Copse.says("`int favour(int bird, int matter, int n)`");
         DarkCommittee x = fresh();
         x.bird(0, 0);
         due("favour was", x.favour(0, 5, 9), 0);
@@ -150,6 +105,7 @@ public final class PromiseTest {
     }
 
     private static void promise4Of() {
+        Copse.says("`int of(int bird, int what)`");
         DarkCommittee x = fresh();
         x.bird(5, 2);
         x.bird(7, 1);
@@ -180,6 +136,7 @@ public final class PromiseTest {
     }
 
     private static void promise5Matter() {
+        Copse.says("`int matter(int clauses, int rich)`");
         DarkCommittee x = fresh();
         due("matter", x.matter(9, 0), 0);
         due("matter", x.matter(1, 9), 1);
@@ -198,6 +155,7 @@ public final class PromiseTest {
     }
 
     private static void promise6At() {
+        Copse.says("`int at(int matter, int what)`");
         DarkCommittee x = together(5, 4, 9, 0);
         x.fly(3, -1);
         due("clauses", x.at(0, 0), 5);
@@ -230,6 +188,7 @@ public final class PromiseTest {
     }
 
     private static void promise7Terms() {
+        Copse.says("`int terms(int what, int value)`");
         DarkCommittee x = fresh();
         int[] first = {0, 1, 0, 1};
         int[] most = {999, 10, 9, 7};
@@ -251,6 +210,7 @@ public final class PromiseTest {
     }
 
     private static void promise8Feed() {
+        Copse.says("`int feed(int a, int b, int c, int d, int e)`");
         DarkCommittee x = fresh();
         for (int i = 1; i <= 20; i++) {
             due("fed " + i, x.feed(0x20202020, 0, -1, Integer.MIN_VALUE, 5), 20 * i);
@@ -267,6 +227,7 @@ public final class PromiseTest {
     }
 
     private static void promise9End() {
+        Copse.says("`int end(int n)`");
         DarkCommittee x = fresh();
         due("end of nothing", x.end(0), 0);
         due("end beyond nothing", x.end(1), -1);
@@ -283,6 +244,7 @@ public final class PromiseTest {
     }
 
     private static void promise10Row() {
+        Copse.says("`int row()`");
         DarkCommittee x = fresh();
         refusedBy("an empty tape", x, x.row(), -6);
         Copse.feed(x, 19, 9, 1, 2, 3, 4, 5, 9, 0, 0, 0, 0, 0, 0, 0, 0);
@@ -321,6 +283,7 @@ public final class PromiseTest {
     }
 
     private static void promise11Cats() {
+        Copse.says("`int cats()`");
         DarkCommittee x = fresh();
         due("no row yet", x.cats(), 0);
         Copse.feed(x, 77, 1, 1);
@@ -334,6 +297,7 @@ public final class PromiseTest {
     }
 
     private static void promise12Law() {
+        Copse.says("`int law()`");
         DarkCommittee x = fresh();
         due("law", Copse.law(x, "sways 5"), 0);
         due("the tape is empty", x.count(7), 0);
@@ -370,6 +334,7 @@ public final class PromiseTest {
     }
 
     private static void lawsAreAsked() {
+        Copse.says("\"sways\", \"bars\" are asked of a BIRD and a MATTER");
         due("bird", swayedBy("sways bird", 0), 1);
         due("tree", swayedBy("sways tree - 8", 0), 4);
         due("favour", swayedBy("sways favour+1", 0), 7);
@@ -416,6 +381,7 @@ public final class PromiseTest {
     }
 
     private static void brokenSums() {
+        Copse.says("a SUM, a TEST is BROKEN");
         due("1,000,000,000", swayedBy("sways 1 if 1000*1000*1000 > 0", 0), 1);
         due("beyond it", swayedBy("sways 1 if 1000*1000*1000+1 > 0", 0), 6);
         due("1,000,000,000 below", swayedBy("sways 1 if 0-1000*1000*1000 < 0", 0), 1);
@@ -456,6 +422,7 @@ public final class PromiseTest {
     }
 
     private static void limitsOfTexts() {
+        Copse.says("FAULT: the first TOKEN that can't go on there");
         due("12 clauses", faultOf("bars" + again(";bars", 11)), -1);
         due("a 13th", faultOf("bars" + again(";bars", 12)), 60);
         due("a 13th, whatever it is", faultOf("bars" + again(";bars", 11) + ";  ?"), 62);
@@ -520,9 +487,10 @@ public final class PromiseTest {
     }
 
     private static void manyTextsOfOne() {
+        Copse.says("TEXTS are on a TAPE of at most 400 bytes.");
         DarkCommittee x = together(9, 9);
         String one = "fly 0 to [tree 0 + 1 + 0 + 0 + 0 + 0 + 0 + 0] % 20 if (1 = 1 or 2 = 2) and 3 = 3";
-        for (int i = 1; i <= 60; i++) {
+        for (int i = 1; i <= 33; i++) {
             due("orders " + i, Copse.orders(x, one), 1);
             due("flown on " + i, x.of(0, 0), (4 + i) % 20);
             due("no law " + i, Copse.law(x, "sways 1 + 2 + 3 + 4 + 5 +"), -6);
@@ -532,6 +500,7 @@ public final class PromiseTest {
     }
 
     private static void promise13Orders() {
+        Copse.says("`int orders()`");
         DarkCommittee x = together(9, 9, 0);
         due("orders", Copse.orders(x, "move 0 by 0; divide 0; fly 2 to 7; fly 1 to 0-1; pass"), 5);
         due("carried", x.at(0, 2), 2);
@@ -566,6 +535,7 @@ public final class PromiseTest {
     }
 
     private static void ordersAreWhole() {
+        Copse.says("ends it: all is as it was ahead of it.");
         DarkCommittee x = together(9, 9, 0);
         x.terms(0, 998);
         x.fly(0, 3);
@@ -602,6 +572,7 @@ public final class PromiseTest {
     }
 
     private static void promise14Fault() {
+        Copse.says("`int fault()`");
         DarkCommittee x = fresh();
         due("none read", x.fault(), -1);
         Copse.law(x, "sways x");
@@ -621,6 +592,7 @@ public final class PromiseTest {
     }
 
     private static void promise15Stopped() {
+        Copse.says("`int stopped()`");
         DarkCommittee x = together(1, 1);
         due("ahead of any", x.stopped(), -1);
         Copse.orders(x, "pass;pass times 2;fly 0 to 4;pass");
@@ -636,6 +608,7 @@ public final class PromiseTest {
     }
 
     private static void promise16Force() {
+        Copse.says("`int force(int law)`");
         DarkCommittee x = together(1, 1);
         Copse.law(x, "sways 7");
         Copse.law(x, "sways 8");
@@ -655,6 +628,7 @@ public final class PromiseTest {
     }
 
     private static void promise17Move() {
+        Copse.says("`int move(int matter, int bird)`");
         DarkCommittee x = together(9, 4, 9, 9);
         due("seconded by 0", x.move(0, 1), 0);
         refusedBy("moved already", x, x.move(0, 1), -3);
@@ -680,6 +654,7 @@ public final class PromiseTest {
     }
 
     private static void promise18Divide() {
+        Copse.says("`int divide(int matter)`");
         DarkCommittee x = together(9, 9, 4, 0);
         refusedBy("it lies", x, x.divide(0), -3);
         refusedBy("no matter", x, x.divide(1), -2);
@@ -723,6 +698,7 @@ public final class PromiseTest {
     }
 
     private static void promise19Fly() {
+        Copse.says("`int fly(int bird, int tree)`");
         DarkCommittee x = fresh();
         x.bird(3, 1);
         x.bird(-1, 1);
@@ -739,6 +715,7 @@ public final class PromiseTest {
     }
 
     private static void promise20Pass() {
+        Copse.says("`int pass()`");
         DarkCommittee x = willing(4, 2, 3);
         x.favour(0, 3, 0);
         x.move(0, 0);
@@ -761,6 +738,7 @@ public final class PromiseTest {
     }
 
     private static void promise21Undo() {
+        Copse.says("`int undo()`");
         DarkCommittee x = together(9, 9);
         refusedBy("none", x, x.undo(), -3);
         x.move(0, 0);
@@ -807,6 +785,7 @@ public final class PromiseTest {
     }
 
     private static void promise22Second() {
+        Copse.says("`int second(int matter, int bird)`");
         DarkCommittee x = together(4, 9, 9);
         due("the lowest", x.second(0, 0), 1);
         due("another", x.second(0, 1), 2);
@@ -825,6 +804,7 @@ public final class PromiseTest {
     }
 
     private static void promise23Richest() {
+        Copse.says("`int richest(int i)`");
         DarkCommittee x = fresh();
         due("none", x.richest(-1), 0);
         due("none", x.richest(0), -1);
@@ -865,6 +845,7 @@ public final class PromiseTest {
     }
 
     private static void richestByTheClock() {
+        Copse.says("(CLOCK going on as they TAKE)");
         DarkCommittee x = willing(3, 3, 4);
         for (int m = 0; m < 3; m++) {
             x.move(m, 0);
@@ -884,6 +865,7 @@ public final class PromiseTest {
     }
 
     private static void promise24ByClock() {
+        Copse.says("`int byClock(int c)`");
         DarkCommittee x = willing(6, 9, 5);
         for (int m = 0; m < 6; m++) {
             x.move(m, 0);
@@ -907,6 +889,7 @@ public final class PromiseTest {
     }
 
     private static void promise25Spoilt() {
+        Copse.says("`int spoilt(int matter, int what)`");
         DarkCommittee x = together(0, 9, 9, 4, 9);
         due("one of three ayes", x.spoilt(0, 0), 1);
         due("the lowest", x.spoilt(0, 1), 2);
@@ -931,6 +914,7 @@ public final class PromiseTest {
     }
 
     private static void promise26Come() {
+        Copse.says("`int come(int matter, int what)`");
         DarkCommittee x = together(9, 0, 0, 9, 9, 9);
         for (int b = 2; b < 6; b++) {
             x.fly(b, -1);
@@ -959,6 +943,7 @@ public final class PromiseTest {
     }
 
     private static void promise27Chain() {
+        Copse.says("`int chain(int from, int to, int i)`");
         DarkCommittee x = fresh();
         x.bird(0, 3);
         x.bird(3, 4);
@@ -990,6 +975,7 @@ public final class PromiseTest {
     }
 
     private static void promise28Ears() {
+        Copse.says("`int ears(int what)`");
         DarkCommittee x = fresh();
         due("none", x.ears(0), 0);
         due("nobody", x.ears(1), 0);
@@ -1009,6 +995,7 @@ public final class PromiseTest {
     }
 
     private static void promise29Loudest() {
+        Copse.says("`int loudest(int what)`");
         DarkCommittee x = fresh();
         due("no birds", x.loudest(0), -1);
         due("no birds", x.loudest(1), -1);
@@ -1027,6 +1014,7 @@ public final class PromiseTest {
     }
 
     private static void promise30Nearest() {
+        Copse.says("`int nearest(int bird, int matter)`");
         DarkCommittee x = fresh();
         x.bird(10, 2);
         x.bird(4, 0);
@@ -1057,6 +1045,7 @@ public final class PromiseTest {
     }
 
     private static void promise31Heard() {
+        Copse.says("`int heard(int ayes)`");
         DarkCommittee x = together(9, 9);
         refusedBy("8", x, x.heard(8), -1);
         refusedBy("-1", x, x.heard(-1), -1);
@@ -1071,6 +1060,7 @@ public final class PromiseTest {
     }
 
     private static void promise32Forget() {
+        Copse.says("`int forget()`");
         DarkCommittee x = together(9, 9);
         due("nothing", x.forget(), 0);
         x.heard(0);
@@ -1083,6 +1073,7 @@ public final class PromiseTest {
     }
 
     private static void promise33CanBe() {
+        Copse.says("`int canBe()`");
         DarkCommittee x = fresh();
         x.bird(1, 1);
         x.bird(1, 1);
@@ -1116,10 +1107,10 @@ public final class PromiseTest {
         x.forget();
         x.heard(1);
         due("one alone: 1 and 2", x.canBe(), 6);
-        canBeOfNobody();
     }
 
     private static void canBeOfNobody() {
+        Copse.says("IT CAN BE: MATTERS on which all that was HEARD were so.");
         DarkCommittee x = fresh();
         x.heard(0);
         due("no matters", x.canBe(), 0);
@@ -1136,6 +1127,7 @@ public final class PromiseTest {
     }
 
     private static void promise34Listen() {
+        Copse.says("`int listen(int what)`");
         DarkCommittee x = fresh();
         due("no birds", x.listen(0), -1);
         x.matter(1, 1);
@@ -1166,6 +1158,7 @@ public final class PromiseTest {
     }
 
     private static void promise35Few() {
+        Copse.says("`long few(int k, int n)`");
         DarkCommittee x = fresh();
         due("0 of 3", x.few(1, 3), 729000000000L);
         due("below 2 of 3", x.few(2, 3), 972000000000L);
@@ -1198,6 +1191,7 @@ public final class PromiseTest {
     }
 
     private static void promise36Compare() {
+        Copse.says("`int compare(int law, int matter)`");
         DarkCommittee x = together(9, 4, 0);
         Copse.law(x, "sways 9 if bird = 1");
         Copse.law(x, "bars if bird = 0");
@@ -1213,6 +1207,7 @@ public final class PromiseTest {
     }
 
     private static void promise37Mays() {
+        Copse.says("`int mays(int seed, int n)`");
         DarkCommittee x = fresh();
         refusedBy("nobody", x, x.mays(1, 1), -3);
         x.bird(4, 5);
@@ -1261,6 +1256,7 @@ public final class PromiseTest {
     }
 
     private static void promise38Drawn() {
+        Copse.says("`int drawn(int k, int what)`");
         DarkCommittee x = together(9, 9);
         due("ahead of any", x.drawn(0, 0), -1);
         x.mays(1, 1);
@@ -1287,6 +1283,7 @@ public final class PromiseTest {
     }
 
     private static void promise39Image() {
+        Copse.says("`int image(int k)`");
         DarkCommittee x = fresh();
         refusedBy("image -1", x, x.image(-1), -1);
         refusedBy("image 2", x, x.image(2), -1);
@@ -1302,6 +1299,7 @@ public final class PromiseTest {
     }
 
     private static void promise40Back() {
+        Copse.says("`int back(int k)`");
         DarkCommittee x = together(9, 9);
         refusedBy("back 2", x, x.back(2), -1);
         refusedBy("back -1", x, x.back(-1), -1);
@@ -1357,10 +1355,10 @@ public final class PromiseTest {
         due("another range, clauses, rich", x.of(2, 1) * 100 + x.at(1, 0) * 10 + x.at(1, 1), 999);
         x.back(1);
         due("its own range, clauses, rich", x.of(2, 1) * 100 + x.at(1, 0) * 10 + x.at(1, 1), 322);
-        backToWhatWasHeard();
     }
 
     private static void backToWhatWasHeard() {
+        Copse.says("BACK to one all that it keeps is as it was then (IMAGES stay).");
         DarkCommittee x = together(9, 9);
         x.matter(1, 1);
         x.heard(2);
@@ -1378,6 +1376,7 @@ public final class PromiseTest {
     }
 
     private static void promise41Count() {
+        Copse.says("`int count(int what)`");
         DarkCommittee x = together(9, 9, 9);
         x.fly(2, -1);
         x.matter(1, 1);
@@ -1413,6 +1412,7 @@ public final class PromiseTest {
     }
 
     private static void promise42Status() {
+        Copse.says("`int status()`");
         DarkCommittee x = fresh();
         due("ahead of any", x.status(), 0);
         due("bird", x.bird(99, 0), -1);
