@@ -1653,10 +1653,9 @@ public final class DarkCommittee {
                 hearersOf[b] = b < roll.birds ? hearers(s, b) : 0;
             }
             int fewest = present;
-            for (int set = 0; set < 1 << BIRDS; set++) {
-                boolean better = Integer.bitCount(set) < Integer.bitCount(fewest)
-                        || Integer.bitCount(set) == Integer.bitCount(fewest) && set < fewest;
-                if (better && (set & ~present) == 0 && hearAll(set, present)) {
+            for (int set = 0; set < present; set++) {
+                boolean fewer = Integer.bitCount(set) < Integer.bitCount(fewest);
+                if (fewer && (set & ~present) == 0 && hearAll(set, present)) {
                     fewest = set;
                 }
             }

@@ -1,24 +1,12 @@
 /** FEW and IV of the document (MAYS, a ROW, IMAGES): each sentence that names a bound, at it, below it and above it. */
-public final class BoundsOfDrawsTest {
+public final class BoundsOfDrawsTest extends Copse {
     private static final long ALL = 1000000000000L;
 
     private BoundsOfDrawsTest() {
     }
 
     public static void main(String[] args) throws IllegalAccessException {
-        Copse.runAll(BoundsOfDrawsTest.class);
-    }
-
-    private static void says(String quote) {
-        Copse.says(quote);
-    }
-
-    private static void due(String what, long got, long want) {
-        Copse.due(what, got, want);
-    }
-
-    private static void refused(String what, DarkCommittee x, long got, int by) {
-        Copse.refused(what, x, got, by);
+        runAll(BoundsOfDrawsTest.class);
     }
 
     private static void fewBounds() {
@@ -170,6 +158,30 @@ public final class BoundsOfDrawsTest {
         }
     }
 
+    private static DarkCommittee drawingOnMoved() {
+        DarkCommittee x = willing(3, 2, 5, 3);
+        x.move(1, 0);
+        x.terms(0, 1);
+        return x;
+    }
+
+    private static void eachOfFour() {
+        says("each if it can be, at 3 the NIGHT passes.");
+        int[] seen = new int[4];
+        for (int seed = 0; seed <= 1000000; seed += 20000) {
+            long s = seed;
+            for (int i = 0; i < 4; i++) {
+                s = (s * 1103 + 12345) % 1000003;
+            }
+            seen[(int) (s % 4)]++;
+            maysAre("seed " + seed, drawingOnMoved(), drawingOnMoved(), seed, 1);
+            maysAre("on and on, seed " + seed, drawingOnMoved(), drawingOnMoved(), seed, 25);
+        }
+        for (int kind = 0; kind < 4; kind++) {
+            due("some were drawn of " + kind, seen[kind] > 3 ? 1 : 0, 1);
+        }
+    }
+
     private static void drawnByAll() {
         says("a DRAW of m: s becomes (s times 1103 and 12345) modulo 1,000,003, it is s modulo m.");
         // 0: 12345, 12345 * 1103 + 12345 = 13628880 is 628841, and so on by hand
@@ -214,7 +226,7 @@ public final class BoundsOfDrawsTest {
 
     private static void richAllTogether() {
         says("how RICH all MATTERS are together that are CARRIED behind them.");
-        DarkCommittee x = Copse.willing(3, 2, 1, 9);
+        DarkCommittee x = willing(3, 2, 1, 9);
         x.move(0, 0);
         x.divide(0);
         x.terms(0, 999);
@@ -267,7 +279,7 @@ public final class BoundsOfDrawsTest {
 
     private static void drawnStays() {
         says("`int mays(int seed, int n)`: MAYS, kept as the latest");
-        DarkCommittee x = Copse.birds(new int[] {3, 1}, new int[] {-1, 1});
+        DarkCommittee x = birds(new int[] {3, 1}, new int[] {-1, 1});
         x.image(0);
         x.matter(1, 1);
         x.terms(0, 999);
@@ -289,7 +301,7 @@ public final class BoundsOfDrawsTest {
 
     private static DarkCommittee row(int... bytes) {
         DarkCommittee x = new DarkCommittee();
-        Copse.feed(x, bytes);
+        feed(x, bytes);
         return x;
     }
 
@@ -338,7 +350,7 @@ public final class BoundsOfDrawsTest {
         due("the first that can be", x.of(0, 0), 5);
         due("the next", x.of(1, 0), 6);
         due("the last that has room", x.of(6, 0), 0);
-        Copse.feed(x, 1, 1, 1, 1, 1, 1, 1, 1);
+        feed(x, 1, 1, 1, 1, 1, 1, 1, 1);
         due("none", x.row() * 10 + x.cats(), 1);
         due("the seventh stays", x.of(6, 0) + x.of(6, 1) + x.of(6, 3), 0);
     }
@@ -383,17 +395,17 @@ public final class BoundsOfDrawsTest {
 
     private static void imagesAreNotAll() {
         says("IMAGES 0, 1 keep all but the TAPE, FAULT, CATS, where ORDERS stopped, what can be undone");
-        DarkCommittee x = Copse.willing(3, 2, 2, 2);
+        DarkCommittee x = willing(3, 2, 2, 2);
         x.image(0);
         due("it can't be undone by image alone", x.count(6), 0);
-        Copse.feed(x, 99, 0);
+        feed(x, 99, 0);
         x.row();
-        Copse.orders(x, "pass; divide 0");
-        Copse.law(x, "bars if");
+        orders(x, "pass; divide 0");
+        law(x, "bars if");
         x.fly(0, 5);
         x.image(1);
         due("kept and it can be undone still", x.count(6), 1);
-        Copse.feed(x, "bars");
+        feed(x, "bars");
         x.terms(3, 3);
         int refusals = x.count(10) * 10 + x.count(12);
         due("back", x.back(0), 0);

@@ -1,26 +1,10 @@
 /** "What it is" and I of the document: each sentence that names a bound, at it, just below it and just above it. */
-public final class BoundsOfNumbersTest {
+public final class BoundsOfNumbersTest extends Copse {
     private BoundsOfNumbersTest() {
     }
 
     public static void main(String[] args) throws IllegalAccessException {
-        Copse.runAll(BoundsOfNumbersTest.class);
-    }
-
-    private static void says(String quote) {
-        Copse.says(quote);
-    }
-
-    private static void due(String what, long got, long want) {
-        Copse.due(what, got, want);
-    }
-
-    private static void refused(String what, DarkCommittee x, long got, int by) {
-        Copse.refused(what, x, got, by);
-    }
-
-    private static DarkCommittee fresh() {
-        return new DarkCommittee();
+        runAll(BoundsOfNumbersTest.class);
     }
 
     private static void fiveHundredAndTwelveCalls() {
@@ -72,7 +56,7 @@ public final class BoundsOfNumbersTest {
 
     private static void treesAreNoRing() {
         says("TREES 0 .. 19 in a row.");
-        DarkCommittee x = Copse.birds(new int[] {0, 9}, new int[] {19, 9}, new int[] {10, 0}, new int[] {9, 0});
+        DarkCommittee x = birds(new int[] {0, 9}, new int[] {19, 9}, new int[] {10, 0}, new int[] {9, 0});
         due("19 is not beside 0", x.of(1, 2), 0);
         due("10 is 9 from 19, 10 from 0", x.of(2, 2), 2);
         due("9 is 9 from 0, 10 from 19", x.of(3, 2), 1);
@@ -175,7 +159,7 @@ public final class BoundsOfNumbersTest {
         for (int m = 0; m < 4; m++) {
             due("it lies", x.at(m, 2), 0);
         }
-        DarkCommittee y = Copse.birds(new int[] {4, 9, 9, 0}, new int[] {4, 9, 9, 9});
+        DarkCommittee y = birds(new int[] {4, 9, 9, 0}, new int[] {4, 9, 9, 9});
         y.matter(1, 1);
         y.matter(1, 1);
         y.move(0, 0);
@@ -189,8 +173,8 @@ public final class BoundsOfNumbersTest {
 
     /** Five of six MATTERS are CARRIED by that time, 5 .. 45; the sixth, 5, is MOVED. It TAKES as MOOD tells. */
     private static DarkCommittee atClock(int clock) {
-        DarkCommittee x = Copse.willing(3, 6, 9, 1);
-        Copse.inForce(x, "takes mood");
+        DarkCommittee x = willing(3, 6, 9, 1);
+        inForce(x, "takes mood");
         for (int m = 0; m < 6; m++) {
             x.move(m, 0);
         }
@@ -252,7 +236,7 @@ public final class BoundsOfNumbersTest {
 
     private static void sevenAyesHeard() {
         says("HEARD, 6 at most: so many 0 .. 7 are AYES on a MATTER nobody knows");
-        DarkCommittee x = Copse.willing(7, 1, 1, 1);
+        DarkCommittee x = willing(7, 1, 1, 1);
         x.matter(1, 1);
         x.heard(7);
         due("seven ayes", x.canBe(), 1);
@@ -315,7 +299,7 @@ public final class BoundsOfNumbersTest {
 
     private static void bits() {
         says("Sets are told as bits.");
-        DarkCommittee x = Copse.willing(7, 6, 1, 1);
+        DarkCommittee x = willing(7, 6, 1, 1);
         due("sitting: all seven", x.at(0, 4), 127);
         due("ayes: all seven", x.at(5, 5), 127);
         due("whom 0 hears: all but itself", x.of(0, 2), 126);
@@ -332,7 +316,7 @@ public final class BoundsOfNumbersTest {
         }
         x.heard(1);
         due("matter 5 alone", x.canBe(), 32);
-        DarkCommittee y = Copse.birds(new int[] {-1, 9, 9}, new int[] {-1, 9, 9}, new int[] {-1, 9, 9},
+        DarkCommittee y = birds(new int[] {-1, 9, 9}, new int[] {-1, 9, 9}, new int[] {-1, 9, 9},
                 new int[] {-1, 9, 9}, new int[] {-1, 9, 9}, new int[] {-1, 9, 9}, new int[] {-1, 9, 9});
         y.matter(1, 1);
         y.terms(3, 7);
@@ -340,10 +324,10 @@ public final class BoundsOfNumbersTest {
     }
 
     private static DarkCommittee full() {
-        DarkCommittee x = Copse.willing(7, 6, 1, 1);
+        DarkCommittee x = willing(7, 6, 1, 1);
         for (int i = 0; i < 6; i++) {
             x.heard(i);
-            Copse.law(x, "bars");
+            law(x, "bars");
         }
         return x;
     }
@@ -371,7 +355,7 @@ public final class BoundsOfNumbersTest {
         refused("it lies: divide", x, x.divide(5), -3);
         refused("no number, not kept: back", x, x.back(2), -1);
         refused("not kept: back", x, x.back(1), -2);
-        Copse.feed(x, "no law");
+        feed(x, "no law");
         refused("no room, no law: law", x, x.law(), -5);
         DarkCommittee y = fresh();
         refused("no number, nobody: mays", y, y.mays(0, 0), -1);
@@ -385,7 +369,7 @@ public final class BoundsOfNumbersTest {
     private static void numbersFarBeyond() {
         says("-1 a number that can't be");
         for (int far : FAR) {
-            DarkCommittee x = Copse.willing(3, 2, 1, 1);
+            DarkCommittee x = willing(3, 2, 1, 1);
             x.image(0);
             refused("bird", x, x.bird(far, 0), -1);
             refused("bird", x, x.bird(0, far), -1);
@@ -411,7 +395,7 @@ public final class BoundsOfNumbersTest {
     private static void nobodyFarBeyond() {
         says("-2 there is no such BIRD, MATTER, LAW, IMAGE");
         for (int far : FAR) {
-            DarkCommittee x = Copse.willing(3, 2, 1, 1);
+            DarkCommittee x = willing(3, 2, 1, 1);
             refused("favour", x, x.favour(far, 0, 0), -2);
             refused("force", x, x.force(far), -2);
             refused("move", x, x.move(far, 0), -2);
@@ -438,7 +422,7 @@ public final class BoundsOfNumbersTest {
         says("`NONE = -1`: There is none.");
         due("the constant", DarkCommittee.NONE, -1);
         for (int far : FAR) {
-            DarkCommittee x = Copse.willing(3, 2, 1, 1);
+            DarkCommittee x = willing(3, 2, 1, 1);
             x.move(0, 0);
             x.mays(1, 1);
             due("of", x.of(0, far), -1);

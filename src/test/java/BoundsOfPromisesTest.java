@@ -1,26 +1,10 @@
 /** The promises' own sentences that name a bound or an empty, full, refused case, beside those of "Terms". */
-public final class BoundsOfPromisesTest {
+public final class BoundsOfPromisesTest extends Copse {
     private BoundsOfPromisesTest() {
     }
 
     public static void main(String[] args) throws IllegalAccessException {
-        Copse.runAll(BoundsOfPromisesTest.class);
-    }
-
-    private static void says(String quote) {
-        Copse.says(quote);
-    }
-
-    private static void due(String what, long got, long want) {
-        Copse.due(what, got, want);
-    }
-
-    private static void refused(String what, DarkCommittee x, long got, int by) {
-        Copse.refused(what, x, got, by);
-    }
-
-    private static DarkCommittee fresh() {
-        return new DarkCommittee();
+        runAll(BoundsOfPromisesTest.class);
     }
 
     private static void promise1NewObject() {
@@ -64,7 +48,7 @@ public final class BoundsOfPromisesTest {
 
     private static void promise3Favour() {
         says("FAVOUR of a BIRD for a MATTER 0 .. 5 (there or not): what it was. -1; -2.");
-        DarkCommittee x = Copse.birds(new int[] {4, 1}, new int[] {4, 1});
+        DarkCommittee x = birds(new int[] {4, 1}, new int[] {4, 1});
         refused("matter -1", x, x.favour(0, -1, 9), -1);
         refused("matter 6", x, x.favour(0, 6, 9), -1);
         refused("n -1", x, x.favour(0, 0, -1), -1);
@@ -86,7 +70,7 @@ public final class BoundsOfPromisesTest {
     private static void promise4Of() {
         says("SWAYED on it (9 + m; NONE: no such MATTER), 0 it WITHDRAWS or is AWAY, 1 it is a NO, 2 an AYE (15 + m;");
         for (int matters = 0; matters <= 6; matters++) {
-            DarkCommittee x = Copse.birds(new int[] {4, 7, 1, 2, 4, 5, 6, 9});
+            DarkCommittee x = birds(new int[] {4, 7, 1, 2, 4, 5, 6, 9});
             for (int m = 0; m < matters; m++) {
                 x.matter(1, 1);
             }
@@ -104,7 +88,7 @@ public final class BoundsOfPromisesTest {
 
     private static void promise5Matter() {
         says("`int matter(int clauses, int rich)`: A MATTER: its number. -1; -5.");
-        DarkCommittee x = Copse.birds(new int[] {4, 9, 9, 9, 9, 9, 9, 9}, new int[] {4, 9, 9, 9, 9, 9, 9, 9});
+        DarkCommittee x = birds(new int[] {4, 9, 9, 9, 9, 9, 9, 9}, new int[] {4, 9, 9, 9, 9, 9, 9, 9});
         for (int m = 0; m < 6; m++) {
             refused("clauses 0", x, x.matter(0, 0), -1);
             refused("clauses 10", x, x.matter(10, 0), -1);
@@ -124,10 +108,10 @@ public final class BoundsOfPromisesTest {
 
     private static void promise6EachNumber() {
         says("Of a MATTER CLAUSES (what 0), RICH (1), 0 it LIES, 1 MOVED, 2 CARRIED, 3 LOST (2), what it TAKES (3),");
-        DarkCommittee x = Copse.birds(new int[] {4, 9, 9}, new int[] {4, 9, 9}, new int[] {4, 9, 0},
+        DarkCommittee x = birds(new int[] {4, 9, 9}, new int[] {4, 9, 9}, new int[] {4, 9, 0},
                 new int[] {-1, 9, 9});
         x.matter(6, 7);
-        Copse.inForce(x, "takes 2; bars if bird = 1 and mood = 1");
+        inForce(x, "takes 2; bars if bird = 1 and mood = 1");
         x.terms(2, 1);
         int[] want = {6, 7, 0, 2, 5, 1, 0};
         for (int what = 0; what < 7; what++) {
@@ -142,7 +126,7 @@ public final class BoundsOfPromisesTest {
 
     private static void promise6At() {
         says("whether a DIVISION can be (6: 1, 0; 0, if it is not MOVED). NONE.");
-        DarkCommittee x = Copse.willing(3, 2, 4, 5);
+        DarkCommittee x = willing(3, 2, 4, 5);
         due("what -1", x.at(0, -1), -1);
         due("what 7", x.at(0, 7), -1);
         due("no matter 2", x.at(2, 6), -1);
@@ -208,9 +192,24 @@ public final class BoundsOfPromisesTest {
         due("-1 of 19", x.end(-1), -1);
         due("19 still", x.count(7), 19);
         due("11 of 19", x.end(11), 11);
-        due("its first 11 alone", x.law() * 10 + x.fault(), -1);
+        due("its first 11 alone", x.law(), 0);
         due("none is left", x.end(1), -1);
+        x.bird(0, 0);
+        x.matter(1, 1);
+        String[] texts = {"sways 77", "sways 7+2", "sways 71000", "sways 7 if 1=2", "sways 7;?"};
+        for (String text : texts) {
+            feed(x, text);
+            x.end(7);
+            int law = x.law();
+            due("what was cut is no part of it: " + text, law, law < 0 ? 0 : x.count(5) - 1);
+            x.force(law);
+            due("seven alone: " + text, x.of(0, 9), 7);
+        }
+        feed(x, "passx");
+        x.end(4);
+        due("a word cut short", x.orders(), 1);
         due("no refusal", x.status(), 0);
+        due("nor counted", x.count(8) + x.count(12), 0);
     }
 
     private static void promise11Cats() {
@@ -219,12 +218,12 @@ public final class BoundsOfPromisesTest {
         due("ahead of any", x.cats(), 0);
         x.row();
         due("a refused one is none", x.cats(), 0);
-        Copse.feed(x, 20, 0, 0);
+        feed(x, 20, 0, 0);
         x.row();
         due("one", x.cats(), 1);
         x.row();
         due("refused: one still", x.cats(), 1);
-        Copse.feed(x, 0, 0, 0, 0, 0, 0, 0, 0);
+        feed(x, 0, 0, 0, 0, 0, 0, 0, 0);
         x.row();
         due("none", x.cats(), 0);
         for (int i = 0; i < 20; i++) {
@@ -238,28 +237,28 @@ public final class BoundsOfPromisesTest {
         says("`int law()`: The TAPE, which is empty then, becomes a LAW: its number.");
         DarkCommittee x = fresh();
         for (int l = 0; l < 6; l++) {
-            refused("none", x, Copse.law(x, "bars;"), -6);
+            refused("none", x, law(x, "bars;"), -6);
             due("empty then", x.count(7), 0);
-            due("its number", Copse.law(x, "bars"), l);
+            due("its number", law(x, "bars"), l);
             due("empty then", x.count(7), 0);
             due("how many", x.count(5), l + 1);
         }
-        refused("a seventh", x, Copse.law(x, "bars"), -5);
+        refused("a seventh", x, law(x, "bars"), -5);
         due("empty then", x.count(7), 0);
     }
 
     private static void promise13Orders() {
         says("`int orders()`: ORDERS, the TAPE is empty then: how many were run.");
         DarkCommittee x = fresh();
-        due("none", Copse.orders(x, "pass if 1=2" + Copse.again("; pass if 1=2", 11)), 0);
+        due("none", orders(x, "pass if 1=2" + again("; pass if 1=2", 11)), 0);
         due("empty then", x.count(7), 0);
-        due("one", Copse.orders(x, "pass"), 1);
-        due("twelve times twenty", Copse.orders(x, "pass times 20" + Copse.again("; pass times 20", 11)), 240);
+        due("one", orders(x, "pass"), 1);
+        due("twelve times twenty", orders(x, "pass times 20" + again("; pass times 20", 11)), 240);
         due("nights", x.count(14), 241);
         due("sixteen are kept", x.count(6), 16);
-        refused("one can't be", x, Copse.orders(x, "pass; divide 0"), -3);
+        refused("one can't be", x, orders(x, "pass; divide 0"), -3);
         due("empty then", x.count(7), 0);
-        refused("none is read", x, Copse.orders(x, "pass; divide"), -6);
+        refused("none is read", x, orders(x, "pass; divide"), -6);
         due("empty then", x.count(7), 0);
         due("nights", x.count(14), 241);
     }
@@ -270,54 +269,54 @@ public final class BoundsOfPromisesTest {
         due("ahead of any", x.fault(), -1);
         x.law();
         due("of nothing, at 0", x.fault(), 0);
-        Copse.law(x, "bars");
+        law(x, "bars");
         due("none", x.fault(), -1);
         x.orders();
         due("of nothing, at 0", x.fault(), 0);
-        Copse.orders(x, "fly 0 to 0");
+        orders(x, "fly 0 to 0");
         due("it can't be, but it is no fault", x.fault(), -1);
-        Copse.orders(x, "pass pass");
+        orders(x, "pass pass");
         due("at 5", x.fault(), 5);
-        Copse.feed(x, "?");
+        feed(x, "?");
         x.row();
         x.force(9);
         x.image(0);
         x.back(0);
         due("others leave it", x.fault(), 5);
         for (int i = 0; i < 5; i++) {
-            due("a law", Copse.law(x, "bars"), i + 1);
+            due("a law", law(x, "bars"), i + 1);
         }
-        Copse.orders(x, "pass ?");
-        refused("no room", x, Copse.law(x, "sways ?"), -5);
+        orders(x, "pass ?");
+        refused("no room", x, law(x, "sways ?"), -5);
         due("it read no text", x.fault(), 5);
     }
 
     private static void promise15Stopped() {
         says("NONE (that was done, or REFUSED by -6; ahead of any).");
-        DarkCommittee x = Copse.willing(3, 1, 1, 1);
+        DarkCommittee x = willing(3, 1, 1, 1);
         due("ahead of any", x.stopped(), -1);
-        Copse.orders(x, "divide 0");
+        orders(x, "divide 0");
         due("the first", x.stopped(), 0);
-        Copse.orders(x, "pass" + Copse.again(";pass", 10) + "; divide 0");
+        orders(x, "pass" + again(";pass", 10) + "; divide 0");
         due("the twelfth", x.stopped(), 11);
-        Copse.law(x, "?");
-        Copse.law(x, "bars");
+        law(x, "?");
+        law(x, "bars");
         x.divide(0);
         x.image(0);
         x.back(0);
         due("others leave it", x.stopped(), 11);
         x.orders();
         due("of nothing: refused by -6", x.stopped(), -1);
-        Copse.orders(x, "divide 0");
+        orders(x, "divide 0");
         due("the first", x.stopped(), 0);
-        Copse.orders(x, "pass if 1=2");
+        orders(x, "pass if 1=2");
         due("done, though none was run", x.stopped(), -1);
-        Copse.orders(x, "divide 0");
-        Copse.orders(x, "divide 0 ?");
+        orders(x, "divide 0");
+        orders(x, "divide 0 ?");
         due("refused by -6", x.stopped(), -1);
-        Copse.orders(x, "pass; fly 0 to 9; fly 0 to 9 times 2");
+        orders(x, "pass; fly 0 to 9; fly 0 to 9 times 2");
         due("the third", x.stopped(), 2);
-        Copse.orders(x, "pass");
+        orders(x, "pass");
         due("done", x.stopped(), -1);
     }
 
@@ -327,7 +326,7 @@ public final class BoundsOfPromisesTest {
         refused("no law 0", x, x.force(0), -2);
         due("none of none", x.force(-1), -1);
         due("that is no refusal", x.status(), 0);
-        Copse.law(x, "bars");
+        law(x, "bars");
         refused("no law 1", x, x.force(1), -2);
         refused("no law -2", x, x.force(-2), -2);
         x.pass();
@@ -361,13 +360,13 @@ public final class BoundsOfPromisesTest {
 
     private static void promise17NobodyElse() {
         says("`int move(int matter, int bird)`: To MOVE: the lowest BIRD who would SECOND it. -2; -3.");
-        DarkCommittee x = Copse.birds(new int[] {0, 9, 9});
+        DarkCommittee x = birds(new int[] {0, 9, 9});
         x.matter(1, 1);
-        Copse.inForce(x, "sways 9");
+        inForce(x, "sways 9");
         refused("none is beside it", x, x.move(0, 0), -3);
         due("none is beside it", x.second(0, 0), -1);
         due("nowhere", x.nearest(0, 0), -1);
-        DarkCommittee y = Copse.willing(7, 1, 1, 1);
+        DarkCommittee y = willing(7, 1, 1, 1);
         for (int b = 0; b < 7; b++) {
             y.favour(b, 0, 4);
         }
@@ -380,7 +379,7 @@ public final class BoundsOfPromisesTest {
     private static void promise18Divide() {
         says("`int divide(int matter)`: To DIVIDE: how many AYES. -2; -3.");
         for (int ayes = 0; ayes <= 7; ayes++) {
-            DarkCommittee x = Copse.willing(7, 2, 1, 1);
+            DarkCommittee x = willing(7, 2, 1, 1);
             x.move(0, 0);
             for (int b = ayes; b < 7; b++) {
                 x.favour(b, 0, 4);
@@ -396,7 +395,7 @@ public final class BoundsOfPromisesTest {
 
     private static void promise19Fly() {
         says("To FLY to a TREE (NONE: AWAY): where it was (0 .. 19; 20: AWAY). -1; -2; -3 it is there.");
-        DarkCommittee x = Copse.birds(new int[] {-1, 0});
+        DarkCommittee x = birds(new int[] {-1, 0});
         refused("away", x, x.fly(0, -1), -3);
         for (int tree = 0; tree < 20; tree++) {
             due("from away", x.fly(0, tree), 20);
@@ -416,7 +415,7 @@ public final class BoundsOfPromisesTest {
         says("`int pass()`: A NIGHT: how many MATTERS LIE then. -3.");
         for (int matters = 0; matters <= 6; matters++) {
             for (int carried = 0; carried <= matters; carried++) {
-                DarkCommittee x = Copse.willing(3, matters, 1, 1);
+                DarkCommittee x = willing(3, matters, 1, 1);
                 for (int m = 0; m < matters; m++) {
                     x.move(m, 0);
                 }
@@ -428,7 +427,7 @@ public final class BoundsOfPromisesTest {
                 due("two nights", x.count(14), 2);
             }
         }
-        DarkCommittee x = Copse.willing(3, 6, 1, 1);
+        DarkCommittee x = willing(3, 6, 1, 1);
         x.terms(0, 999);
         refused("at 999", x, x.pass(), -3);
         x.terms(0, 998);
@@ -450,7 +449,7 @@ public final class BoundsOfPromisesTest {
 
     private static void promise21AllThatStands() {
         says("(how MATTERS stand, TREES, CLOCK, NIGHT are as they were): 0 .. 3. -3 there is none");
-        DarkCommittee x = Copse.willing(7, 6, 2, 1);
+        DarkCommittee x = willing(7, 6, 2, 1);
         x.terms(0, 7);
         String[] acts = {"pass", "move 5 by 6", "fly 6 to 19", "divide 5", "fly 0 to 0-1", "move 0 by 1", "divide 0",
             "pass", "fly 6 to 0", "move 4 by 3", "pass"};
@@ -458,7 +457,7 @@ public final class BoundsOfPromisesTest {
         long[][] ahead = new long[acts.length][];
         for (int i = 0; i < acts.length; i++) {
             ahead[i] = stand(x);
-            due(acts[i], Copse.orders(x, acts[i]), 1);
+            due(acts[i], orders(x, acts[i]), 1);
         }
         for (int i = acts.length - 1; i >= 0; i--) {
             due("undo " + acts[i], x.undo(), kinds[i]);
@@ -488,7 +487,7 @@ public final class BoundsOfPromisesTest {
             due("tree", x.of(0, 0), n - kept);
             DarkCommittee y = fresh();
             y.bird(0, 0);
-            due("by orders", Copse.orders(y, "fly 0 to done+1 times " + n), n);
+            due("by orders", orders(y, "fly 0 to done+1 times " + n), n);
             due("kept of " + n, y.count(6), kept);
             for (int i = 1; i <= kept; i++) {
                 due("undo", y.undo() * 100 + y.of(0, 0), 200 + n - i);
@@ -499,7 +498,7 @@ public final class BoundsOfPromisesTest {
 
     private static void promise21EachOfFour() {
         says("(how MATTERS stand, TREES, CLOCK, NIGHT are as they were): 0 .. 3. -3 there is none");
-        DarkCommittee x = Copse.willing(3, 3, 5, 1);
+        DarkCommittee x = willing(3, 3, 5, 1);
         refused("none", x, x.undo(), -3);
         x.move(0, 0);
         x.move(1, 0);
@@ -523,7 +522,7 @@ public final class BoundsOfPromisesTest {
     }
 
     private static int undoBehind(int call) {
-        DarkCommittee x = Copse.willing(3, 2, 5, 1);
+        DarkCommittee x = willing(3, 2, 5, 1);
         x.image(0);
         x.fly(0, 7);
         switch (call) {
@@ -537,7 +536,7 @@ public final class BoundsOfPromisesTest {
                 x.terms(3, 1);
                 break;
             case 3:
-                Copse.feed(x, 99);
+                feed(x, 99);
                 x.row();
                 break;
             case 4:
@@ -562,7 +561,7 @@ public final class BoundsOfPromisesTest {
                 x.favour(0, 0, 1);
                 break;
             case 11:
-                Copse.law(x, "bars");
+                law(x, "bars");
                 break;
             case 12:
                 x.force(-1);
@@ -578,7 +577,7 @@ public final class BoundsOfPromisesTest {
                 x.image(1);
                 break;
             case 16:
-                Copse.orders(x, "fly 0 to 8; divide 0");
+                orders(x, "fly 0 to 8; divide 0");
                 break;
             default:
                 x.undo();
@@ -598,7 +597,7 @@ public final class BoundsOfPromisesTest {
 
     private static void promise22Second() {
         says("NONE (nobody; the BIRD is AWAY; no such MATTER, BIRD).");
-        DarkCommittee x = Copse.birds(new int[] {4, 9, 9}, new int[] {4, 9, 9}, new int[] {-1, 9, 9});
+        DarkCommittee x = birds(new int[] {4, 9, 9}, new int[] {4, 9, 9}, new int[] {-1, 9, 9});
         due("no matter 0", x.second(0, 0), -1);
         x.matter(1, 1);
         due("the lowest other", x.second(0, 0) * 10 + x.second(0, 1), 10);
@@ -619,7 +618,7 @@ public final class BoundsOfPromisesTest {
 
     private static void promise25And26What() {
         says("it would not be CARRIED now: 0), who, as bits (1). NONE.");
-        DarkCommittee x = Copse.willing(3, 2, 1, 1);
+        DarkCommittee x = willing(3, 2, 1, 1);
         for (int what = -1; what <= 2; what++) {
             due("spoilt " + what, x.spoilt(0, what), what == 0 ? 3 : what == 1 ? 7 : -1);
             due("come " + what, x.come(0, what), what == 0 || what == 1 ? 0 : -1);
@@ -643,7 +642,7 @@ public final class BoundsOfPromisesTest {
 
     private static void promise32Forget() {
         says("`int forget()`: HEARD is nothing then: how often there was.");
-        DarkCommittee x = Copse.willing(2, 1, 1, 1);
+        DarkCommittee x = willing(2, 1, 1, 1);
         due("never", x.forget(), 0);
         for (int n = 1; n <= 6; n++) {
             for (int i = 0; i < n; i++) {
@@ -668,7 +667,7 @@ public final class BoundsOfPromisesTest {
         }
         for (int m = 0; m < 6; m++) {
             x.matter(kind == 0 ? m + 1 : 9 - m, kind == 0 ? m + 2 : 9 - m);
-            Copse.law(x, "sways " + (m + 4 * kind) + " if mood > 8; takes " + (m + 1 + kind));
+            law(x, "sways " + (m + 4 * kind) + " if mood > 8; takes " + (m + 1 + kind));
             x.heard(kind == 0 ? 3 : m);
         }
         for (int term = 0; term < 4; term++) {
@@ -754,7 +753,7 @@ public final class BoundsOfPromisesTest {
 
     private static void promise41Count() {
         says("8 .. 12 how many calls were REFUSED by -1, -2, -3, -5, -6 (IMAGES do not keep that)");
-        DarkCommittee x = Copse.willing(7, 1, 1, 1);
+        DarkCommittee x = willing(7, 1, 1, 1);
         x.image(0);
         int[] due = new int[5];
         for (int n = 0; n < 15; n++) {
@@ -775,7 +774,7 @@ public final class BoundsOfPromisesTest {
         for (int i = 0; i < 5; i++) {
             due("nor answers of NONE, nor back(): count " + (8 + i), x.count(8 + i), 3);
         }
-        Copse.orders(x, "fly 0 to 20; pass");
+        orders(x, "fly 0 to 20; pass");
         due("orders by -3 alone", x.count(8) * 10 + x.count(10), 34);
     }
 
@@ -786,7 +785,7 @@ public final class BoundsOfPromisesTest {
         due("-1", x.count(-1), -1);
         due("18", x.count(18), -1);
         due("no law", x.count(13), -1);
-        Copse.inForce(x, "bars");
+        inForce(x, "bars");
         due("law 0", x.count(13), 0);
         for (int term = 0; term < 4; term++) {
             x.terms(term, term + 4);
@@ -813,12 +812,12 @@ public final class BoundsOfPromisesTest {
         refused("terms", x, x.terms(-1, 0), -1);
         due("terms", x.terms(0, 0) + x.status(), 0);
         refused("row", x, x.row(), -6);
-        Copse.feed(x, 99);
+        feed(x, 99);
         due("row", x.row() + x.status(), 0);
         refused("law", x, x.law(), -6);
-        due("law", Copse.law(x, "bars if 1=2") + x.status(), 0);
-        refused("orders", x, Copse.orders(x, "divide 0"), -3);
-        due("orders", Copse.orders(x, "pass if 1=2") + x.status(), 0);
+        due("law", law(x, "bars if 1=2") + x.status(), 0);
+        refused("orders", x, orders(x, "divide 0"), -3);
+        due("orders", orders(x, "pass if 1=2") + x.status(), 0);
         refused("force", x, x.force(1), -2);
         due("force", x.force(-1) + 1 + x.status(), 0);
         refused("move", x, x.move(0, 0), -3);

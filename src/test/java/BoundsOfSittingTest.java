@@ -1,32 +1,20 @@
 /** III of the document, as far as one sits, moves, divides: each sentence that names a bound, at it and beside it. */
-public final class BoundsOfSittingTest {
+public final class BoundsOfSittingTest extends Copse {
     private BoundsOfSittingTest() {
     }
 
     public static void main(String[] args) throws IllegalAccessException {
-        Copse.runAll(BoundsOfSittingTest.class);
-    }
-
-    private static void says(String quote) {
-        Copse.says(quote);
-    }
-
-    private static void due(String what, long got, long want) {
-        Copse.due(what, got, want);
-    }
-
-    private static void refused(String what, DarkCommittee x, long got, int by) {
-        Copse.refused(what, x, got, by);
+        runAll(BoundsOfSittingTest.class);
     }
 
     private static void whoSits() {
         says("SITTING on a MATTER: BIRDS that are not AWAY and do not WITHDRAW from it.");
-        DarkCommittee x = Copse.birds(new int[] {0, 9, 9, 9}, new int[] {19, 0, 0, 0}, new int[] {-1, 9, 9, 9},
+        DarkCommittee x = birds(new int[] {0, 9, 9, 9}, new int[] {19, 0, 0, 0}, new int[] {-1, 9, 9, 9},
                 new int[] {5, 5, 5, 4});
         x.matter(1, 1);
         x.matter(1, 1);
         due("but for the one away", x.at(0, 4), 11);
-        Copse.inForce(x, "bars if bird = 3 and matter = 0; bars if tree < 0");
+        inForce(x, "bars if bird = 3 and matter = 0; bars if tree < 0");
         due("one withdraws from 0", x.at(0, 4), 3);
         due("not from 1", x.at(1, 4), 11);
         due("ayes on 0", x.at(0, 5), 1);
@@ -46,7 +34,7 @@ public final class BoundsOfSittingTest {
         says("A BIRD HEARS another one, if neither is AWAY and their TREES are no farther apart "
                 + "than the RANGE of the other one.");
         for (int range = 0; range <= 9; range++) {
-            DarkCommittee x = Copse.birds(new int[] {0, range}, new int[] {-1, 0}, new int[] {19, range});
+            DarkCommittee x = birds(new int[] {0, range}, new int[] {-1, 0}, new int[] {19, range});
             due("away hears none", x.of(1, 2), 0);
             due("none hears away", x.of(0, 2), 0);
             for (int tree = 0; tree < 20; tree++) {
@@ -60,7 +48,7 @@ public final class BoundsOfSittingTest {
             due("none hears one that left", x.of(1, 2), 4);
             due("one that left hears none", x.of(0, 2), 0);
         }
-        DarkCommittee y = Copse.birds(new int[] {7, 9});
+        DarkCommittee y = birds(new int[] {7, 9});
         due("not itself", y.of(0, 2), 0);
     }
 
@@ -68,18 +56,18 @@ public final class BoundsOfSittingTest {
         says("It would SECOND a MATTER moved by another BIRD, if it HEARS that one and is an AYE.");
         for (int favour = 4; favour <= 5; favour++) {
             for (int far = 3; far <= 4; far++) {
-                DarkCommittee x = Copse.birds(new int[] {4, 3, 9}, new int[] {4 + far, 0, favour});
+                DarkCommittee x = birds(new int[] {4, 3, 9}, new int[] {4 + far, 0, favour});
                 x.matter(1, 1);
                 int by = favour == 5 && far == 3 ? 1 : -1;
                 due("favour " + favour + ", far " + far, x.second(0, 0), by);
                 due("to move: favour " + favour + ", far " + far, x.move(0, 0), by == 1 ? 1 : -3);
             }
         }
-        DarkCommittee x = Copse.birds(new int[] {4, 3, 9}, new int[] {4, 3, 9}, new int[] {4, 3, 9});
+        DarkCommittee x = birds(new int[] {4, 3, 9}, new int[] {4, 3, 9}, new int[] {4, 3, 9});
         x.matter(1, 1);
         due("not itself: the lowest other", x.second(0, 0), 1);
         due("the lowest", x.second(0, 2), 0);
-        Copse.inForce(x, "bars if bird = 0");
+        inForce(x, "bars if bird = 0");
         due("one that withdraws does not", x.second(0, 2), 1);
         due("but may have moved", x.second(0, 0), 1);
         x.fly(1, -1);
@@ -90,7 +78,7 @@ public final class BoundsOfSittingTest {
     private static void whatCanBeMoved() {
         says("To MOVE a MATTER that LIES by a BIRD that is SITTING on it, "
                 + "if another one would SECOND it: it is MOVED.");
-        DarkCommittee x = Copse.birds(new int[] {4, 9, 9, 9}, new int[] {4, 9, 0, 9}, new int[] {-1, 9, 9, 9});
+        DarkCommittee x = birds(new int[] {4, 9, 9, 9}, new int[] {4, 9, 0, 9}, new int[] {-1, 9, 9, 9});
         x.matter(1, 1);
         x.matter(1, 1);
         refused("none would second", x, x.move(0, 0), -3);
@@ -107,7 +95,7 @@ public final class BoundsOfSittingTest {
         x.pass();
         refused("carried still", x, x.move(1, 1), -3);
         refused("by one away", x, x.move(0, 2), -3);
-        Copse.inForce(x, "bars if bird = 1 and clock = 0");
+        inForce(x, "bars if bird = 1 and clock = 0");
         refused("by one that withdraws", x, x.move(0, 1), -3);
         due("it would be seconded, though", x.second(0, 1), 0);
         x.force(-1);
@@ -118,7 +106,7 @@ public final class BoundsOfSittingTest {
         says("if those SITTING on it are as many as QUORUM at least");
         for (int quorum = 0; quorum <= 7; quorum++) {
             for (int sit = 0; sit <= 7; sit++) {
-                DarkCommittee x = Copse.willing(7, 1, 1, 5);
+                DarkCommittee x = willing(7, 1, 1, 5);
                 x.move(0, 0);
                 x.terms(3, quorum);
                 for (int b = sit; b < 7; b++) {
@@ -136,12 +124,12 @@ public final class BoundsOfSittingTest {
 
     private static void quorumOfThoseWhoSit() {
         says("if those SITTING on it are as many as QUORUM at least");
-        DarkCommittee x = Copse.willing(4, 1, 1, 5);
+        DarkCommittee x = willing(4, 1, 1, 5);
         x.favour(3, 0, 0);
         x.move(0, 0);
         x.terms(3, 4);
         due("noes sit, too", x.at(0, 6), 1);
-        Copse.inForce(x, "bars if bird = 2");
+        inForce(x, "bars if bird = 2");
         due("who withdraws does not", x.at(0, 6), 0);
         refused("three of four", x, x.divide(0), -3);
         x.terms(3, 3);
@@ -152,14 +140,14 @@ public final class BoundsOfSittingTest {
     private static void lightAtFortyEight() {
         says("CLOCK and what it TAKES is 48 at most");
         for (int takes = 2; takes <= 4; takes++) {
-            DarkCommittee x = Copse.willing(3, 6, 9, 1);
+            DarkCommittee x = willing(3, 6, 9, 1);
             for (int m = 0; m < 6; m++) {
                 x.move(m, 0);
             }
             for (int m = 0; m < 5; m++) {
                 x.divide(m);
             }
-            Copse.inForce(x, "takes " + takes);
+            inForce(x, "takes " + takes);
             boolean can = takes <= 3;
             due("can be: 45 and " + takes, x.at(5, 6), can ? 1 : 0);
             due("divide: 45 and " + takes, x.divide(5), can ? 3 : -3);
@@ -172,7 +160,7 @@ public final class BoundsOfSittingTest {
         says("it is CARRIED, if AYES are more than NOES, else LOST");
         for (int ayes = 0; ayes <= 7; ayes++) {
             for (int noes = 0; ayes + noes <= 7; noes++) {
-                DarkCommittee x = Copse.willing(7, 1, 1, 5);
+                DarkCommittee x = willing(7, 1, 1, 5);
                 x.move(0, 0);
                 for (int b = ayes; b < 7; b++) {
                     x.favour(b, 0, 4);
@@ -192,10 +180,10 @@ public final class BoundsOfSittingTest {
 
     private static void askedAsItWasAhead() {
         says("(all asked as it was ahead); CLOCK is more by what it TAKES.");
-        DarkCommittee x = Copse.willing(3, 2, 5, 5);
+        DarkCommittee x = willing(3, 2, 5, 5);
         x.move(0, 0);
         x.move(1, 0);
-        Copse.inForce(x, "sways 0 if clock > 0; takes 7 if clock > 0; bars if clock > 0 and bird = 2");
+        inForce(x, "sways 0 if clock > 0; takes 7 if clock > 0; bars if clock > 0 and bird = 2");
         due("three ayes", x.divide(0), 3);
         due("carried", x.at(0, 2), 2);
         due("five later", x.count(3), 5);
@@ -207,7 +195,7 @@ public final class BoundsOfSittingTest {
 
     private static void flights() {
         says("To FLY: a BIRD is in another TREE (or comes), or AWAY.");
-        DarkCommittee x = Copse.birds(new int[] {0, 0}, new int[] {-1, 0});
+        DarkCommittee x = birds(new int[] {0, 0}, new int[] {-1, 0});
         refused("to its own", x, x.fly(0, 0), -3);
         due("to another", x.fly(0, 1), 0);
         due("as far as can be", x.fly(0, 19), 1);
@@ -221,7 +209,7 @@ public final class BoundsOfSittingTest {
 
     private static void nights() {
         says("MATTERS that are MOVED or LOST LIE; it is the next NIGHT (at 999 it can't be).");
-        DarkCommittee x = Copse.willing(3, 4, 2, 5);
+        DarkCommittee x = willing(3, 4, 2, 5);
         for (int b = 0; b < 3; b++) {
             x.favour(b, 1, b == 0 ? 9 : 0);
         }
@@ -252,7 +240,7 @@ public final class BoundsOfSittingTest {
 
     private static void nightByTerms() {
         says("MATTERS that are MOVED or LOST LIE; it is the next NIGHT (at 999 it can't be).");
-        DarkCommittee x = Copse.willing(3, 2, 2, 5);
+        DarkCommittee x = willing(3, 2, 2, 5);
         x.move(0, 0);
         x.move(1, 0);
         x.divide(0);

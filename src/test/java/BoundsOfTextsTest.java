@@ -1,28 +1,16 @@
 /** II of the document, as far as TEXTS are read: each sentence that names a bound, at it, below it and above it. */
-public final class BoundsOfTextsTest {
+public final class BoundsOfTextsTest extends Copse {
     private BoundsOfTextsTest() {
     }
 
     public static void main(String[] args) throws IllegalAccessException {
-        Copse.runAll(BoundsOfTextsTest.class);
-    }
-
-    private static void says(String quote) {
-        Copse.says(quote);
-    }
-
-    private static void due(String what, long got, long want) {
-        Copse.due(what, got, want);
-    }
-
-    private static String again(String s, int n) {
-        return Copse.again(s, n);
+        runAll(BoundsOfTextsTest.class);
     }
 
     /** A LAW on a new object: its FAULT, -1 without. */
     private static void law(String text, int fault) {
         DarkCommittee x = new DarkCommittee();
-        due("law " + text, Copse.law(x, text), fault == -1 ? 0 : -6);
+        due("law " + text, law(x, text), fault == -1 ? 0 : -6);
         due("fault of law " + text, x.fault(), fault);
         due("status of law " + text, x.status(), fault == -1 ? 0 : -6);
         due("laws with " + text, x.count(5), fault == -1 ? 1 : 0);
@@ -31,7 +19,7 @@ public final class BoundsOfTextsTest {
     /** ORDERS on a new object: their FAULT, -1 without (they may be such that can't be, though). */
     private static void orders(String text, int fault) {
         DarkCommittee x = new DarkCommittee();
-        int told = Copse.orders(x, text);
+        int told = orders(x, text);
         due("refused for a fault: " + text, told == -6 ? 1 : 0, fault == -1 ? 0 : 1);
         due("fault of orders " + text, x.fault(), fault);
         due("by -6: " + text, x.count(12), fault == -1 ? 0 : 1);
@@ -39,9 +27,9 @@ public final class BoundsOfTextsTest {
 
     /** How one is SWAYED by a LAW: BIRD 0 in TREE 4, with a FAVOUR of 6 for MATTER 0 of 7 CLAUSES, RICH 3. */
     private static int swayed(String law) {
-        DarkCommittee x = Copse.birds(new int[] {4, 1, 6});
+        DarkCommittee x = birds(new int[] {4, 1, 6});
         x.matter(7, 3);
-        Copse.inForce(x, law);
+        inForce(x, law);
         return x.of(0, 9);
     }
 
@@ -57,7 +45,7 @@ public final class BoundsOfTextsTest {
         law(again(" ", 400), 400);
         law(again(";", 400), 0);
         DarkCommittee x = new DarkCommittee();
-        Copse.feed(x, again(" ", 393) + "sways 7");
+        feed(x, again(" ", 393) + "sways 7");
         due("one more", x.feed(0x31313131, 0, 0, 0, 0), -1);
         due("cut by one", x.end(399), 399);
         due("the last is gone", x.law() * 1000 + x.fault(), -6000 + 399);
@@ -163,8 +151,8 @@ public final class BoundsOfTextsTest {
         orders("pass" + again(";pass", 11) + ";", 60);
         orders("pass" + again(";pass", 11) + "; fly", 61);
         DarkCommittee x = new DarkCommittee();
-        due("twelve are run", Copse.orders(x, "pass" + again(";pass", 11)), 12);
-        due("thirteen are not", Copse.orders(x, "pass" + again(";pass", 12)), -6);
+        due("twelve are run", orders(x, "pass" + again(";pass", 11)), 12);
+        due("thirteen are not", orders(x, "pass" + again(";pass", 12)), -6);
         due("night", x.count(14), 12);
     }
 
@@ -340,11 +328,11 @@ public final class BoundsOfTextsTest {
         orders("fly 0 to 0 times 21", 17);
         for (int n = 1; n <= 20; n++) {
             DarkCommittee x = new DarkCommittee();
-            due("times " + n, Copse.orders(x, "pass times " + n), n);
+            due("times " + n, orders(x, "pass times " + n), n);
             due("nights", x.count(14), n);
         }
         DarkCommittee x = new DarkCommittee();
-        due("once without", Copse.orders(x, "pass"), 1);
+        due("once without", orders(x, "pass"), 1);
         due("one night", x.count(14), 1);
     }
 

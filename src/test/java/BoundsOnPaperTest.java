@@ -1,24 +1,16 @@
 /** III of the document, as far as it is on paper: each sentence that names a bound, at it, below it and above it. */
-public final class BoundsOnPaperTest {
+public final class BoundsOnPaperTest extends Copse {
     private BoundsOnPaperTest() {
     }
 
     public static void main(String[] args) throws IllegalAccessException {
-        Copse.runAll(BoundsOnPaperTest.class);
-    }
-
-    private static void says(String quote) {
-        Copse.says(quote);
-    }
-
-    private static void due(String what, long got, long want) {
-        Copse.due(what, got, want);
+        runAll(BoundsOnPaperTest.class);
     }
 
     /** MATTERS that are MOVED, all willingly CARRIED, each told by its CLAUSES and how RICH it is. */
     private static DarkCommittee moved(int[]... matters) {
         int[] willing = {4, 9, 9, 9, 9, 9, 9, 9};
-        DarkCommittee x = Copse.birds(willing, willing, willing);
+        DarkCommittee x = birds(willing, willing, willing);
         for (int m = 0; m < matters.length; m++) {
             x.matter(matters[m][0], matters[m][1]);
             x.move(m, 0);
@@ -38,7 +30,7 @@ public final class BoundsOnPaperTest {
     private static void richestOfNone() {
         says("`int richest(int i)`: The RICHEST order: how RICH (i NONE), the i-th MATTER. NONE.");
         row("no birds", new DarkCommittee(), 0);
-        DarkCommittee x = Copse.willing(3, 2, 1, 5);
+        DarkCommittee x = willing(3, 2, 1, 5);
         row("none is moved", x, 0);
         x.move(1, 0);
         row("one is moved", x, 5, 1);
@@ -72,15 +64,15 @@ public final class BoundsOnPaperTest {
         row("it ends", moved(new int[] {1, 3}, new int[] {1, 3}, new int[] {1, 0}), 6, 0, 1);
         row("poor ones ahead", moved(new int[] {1, 0}, new int[] {1, 3}, new int[] {1, 0}), 3, 0, 1);
         DarkCommittee x = moved(new int[] {2, 3}, new int[] {2, 3});
-        Copse.inForce(x, "sways 0 if matter = 0 and clock = 0");
+        inForce(x, "sways 0 if matter = 0 and clock = 0");
         row("the second ahead", x, 6, 1, 0);
-        Copse.inForce(x, "sways 0 if clock = 0 or clock = 2 and matter = 1");
+        inForce(x, "sways 0 if clock = 0 or clock = 2 and matter = 1");
         row("one of both", x, 3, 1, 0);
-        Copse.inForce(x, "sways 0 if matter = 0");
+        inForce(x, "sways 0 if matter = 0");
         row("the lost one ahead", x, 3, 0, 1);
-        Copse.inForce(x, "sways 0 if matter = 0 or clock > 1");
+        inForce(x, "sways 0 if matter = 0 or clock > 1");
         row("alone", x, 3, 1);
-        Copse.inForce(x, "bars if clock = 0 and matter = 0 or clock = 2 and matter = 1");
+        inForce(x, "bars if clock = 0 and matter = 0 or clock = 2 and matter = 1");
         row("where it can't be first", x, 6, 1, 0);
     }
 
@@ -111,10 +103,10 @@ public final class BoundsOnPaperTest {
         DarkCommittee x = moved(new int[] {9, 1}, new int[] {9, 2}, new int[] {9, 4}, new int[] {9, 3},
                 new int[] {9, 5}, new int[] {4, 9});
         due("49: left out", x.byClock(48), 15);
-        Copse.inForce(x, "sways 0 if matter = 2");
+        inForce(x, "sways 0 if matter = 2");
         due("lost, it takes its time: c 35", x.byClock(35), 3);
         due("lost, it takes its time: c 36", x.byClock(36), 6);
-        Copse.inForce(x, "bars if matter = 2");
+        inForce(x, "bars if matter = 2");
         due("no quorum, it takes none: c 26", x.byClock(26), 3);
         due("no quorum, it takes none: c 27", x.byClock(27), 6);
         due("then the last can be: c 39", x.byClock(39), 11);
@@ -122,9 +114,9 @@ public final class BoundsOnPaperTest {
         x.terms(3, 0);
         due("quorum 0: lost, it takes its time", x.byClock(35), 3);
         x.terms(3, 1);
-        Copse.inForce(x, "bars if clock = 0");
+        inForce(x, "bars if clock = 0");
         due("nothing can be at 0", x.byClock(48), 0);
-        Copse.inForce(x, "bars if clock = 0 and matter < 2");
+        inForce(x, "bars if clock = 0 and matter < 2");
         due("2 is the first", x.byClock(9), 4);
     }
 
@@ -171,10 +163,10 @@ public final class BoundsOnPaperTest {
         DarkCommittee x = votes(1, 0, 9, 9, 9);
         x.fly(1, -1);
         spoiltBy("of those sitting", x, 1, 4);
-        Copse.inForce(x, "bars if bird = 0");
+        inForce(x, "bars if bird = 0");
         spoiltBy("a no that withdraws", x, 2, 12);
         DarkCommittee y = votes(1, 9, 9);
-        Copse.inForce(y, "takes 9; sways 0 if clock > 0");
+        inForce(y, "takes 9; sways 0 if clock > 0");
         y.matter(9, 1);
         y.favour(0, 1, 9);
         y.favour(1, 1, 9);
@@ -237,24 +229,24 @@ public final class BoundsOnPaperTest {
     private static void wereTheyInTreeNought() {
         says("(\"sways\", \"bars\" as they were there.)");
         DarkCommittee x = withAway(1, 1, 0, 0, 0);
-        Copse.inForce(x, "sways 9 if tree = 0");
+        inForce(x, "sways 9 if tree = 0");
         comeTo("ayes in tree 0", x, 2, 6);
-        Copse.inForce(x, "sways 9 if tree = 0; bars if tree = 0 and bird = 2");
+        inForce(x, "sways 9 if tree = 0; bars if tree = 0 and bird = 2");
         comeTo("one withdraws there", x, -1, -1);
-        Copse.inForce(x, "sways 9 if tree < 0 or tree > 4");
+        inForce(x, "sways 9 if tree < 0 or tree > 4");
         comeTo("ayes elsewhere alone", x, -1, -1);
-        Copse.inForce(x, "bars if tree < 0; sways 9 if bird > 0");
+        inForce(x, "bars if tree < 0; sways 9 if bird > 0");
         comeTo("withdrawn while away alone", x, 2, 6);
         x.fly(1, 0);
         x.fly(2, 0);
-        Copse.inForce(x, "sways 9 if tree = 0");
+        inForce(x, "sways 9 if tree = 0");
         spoiltBy("in tree 0: one more", x, 1, 2);
         due("not carried without", withAway(1, 3, 0, 0, 0).come(0, 0), -1);
     }
 
     private static void chains() {
         says("A CHAIN from a BIRD to another one: the fewest BIRDS");
-        DarkCommittee x = Copse.birds(new int[] {0, 2}, new int[] {2, 2}, new int[] {4, 2}, new int[] {6, 2},
+        DarkCommittee x = birds(new int[] {0, 2}, new int[] {2, 2}, new int[] {4, 2}, new int[] {6, 2},
                 new int[] {8, 2}, new int[] {10, 2}, new int[] {12, 2});
         for (int from = 0; from < 7; from++) {
             for (int to = 0; to < 7; to++) {
@@ -271,7 +263,7 @@ public final class BoundsOnPaperTest {
 
     private static void firstChain() {
         says("the last one being the other; the first as a row.");
-        DarkCommittee x = Copse.birds(new int[] {5, 1}, new int[] {4, 1}, new int[] {6, 1}, new int[] {5, 1},
+        DarkCommittee x = birds(new int[] {5, 1}, new int[] {4, 1}, new int[] {6, 1}, new int[] {5, 1},
                 new int[] {5, 0}, new int[] {7, 0});
         due("0 to 5: by 2 alone", x.chain(0, 5, -1) * 100 + x.chain(0, 5, 0) * 10 + x.chain(0, 5, 1), 225);
         due("1 to 2: by 0, ahead of 3", x.chain(1, 2, -1) * 100 + x.chain(1, 2, 0) * 10 + x.chain(1, 2, 1), 202);
@@ -290,6 +282,9 @@ public final class BoundsOnPaperTest {
         due("from no bird", x.chain(6, 0, -1), -1);
         due("to bird -1", x.chain(0, -1, -1), -1);
         due("from bird -1", x.chain(-1, 0, -1), -1);
+        DarkCommittee y = birds(new int[] {5, 1}, new int[] {6, 1}, new int[] {7, 0});
+        due("0 to 1: one", y.chain(0, 1, -1) * 10 + y.chain(0, 1, 0), 11);
+        due("0 to 1: no second, though 2 hears 1", y.chain(0, 1, 1), -1);
     }
 
     private static void ears(String what, DarkCommittee x, int howMany, int who) {
@@ -301,21 +296,21 @@ public final class BoundsOnPaperTest {
     private static void fewestEars() {
         says("(none present: 0); the lowest as bits.");
         ears("no birds", new DarkCommittee(), 0, 0);
-        ears("one away", Copse.birds(new int[] {-1, 9}), 0, 0);
-        ears("one present", Copse.birds(new int[] {-1, 9}, new int[] {0, 9}), 1, 2);
+        ears("one away", birds(new int[] {-1, 9}), 0, 0);
+        ears("one present", birds(new int[] {-1, 9}, new int[] {0, 9}), 1, 2);
         int[] silent = {3, 0};
         int[] alone = {9, 0};
-        ears("in one tree", Copse.birds(silent, silent, silent), 1, 1);
-        ears("in two trees", Copse.birds(silent, alone, silent), 2, 3);
-        ears("seven in seven trees", Copse.birds(new int[] {0, 0}, new int[] {2, 0}, new int[] {4, 0}, new int[] {6, 0},
+        ears("in one tree", birds(silent, silent, silent), 1, 1);
+        ears("in two trees", birds(silent, alone, silent), 2, 3);
+        ears("seven in seven trees", birds(new int[] {0, 0}, new int[] {2, 0}, new int[] {4, 0}, new int[] {6, 0},
                 new int[] {8, 0}, new int[] {10, 0}, new int[] {12, 0}), 7, 127);
-        ears("seven, all heard by all", Copse.birds(new int[] {0, 9}, new int[] {1, 9}, new int[] {2, 9},
+        ears("seven, all heard by all", birds(new int[] {0, 9}, new int[] {1, 9}, new int[] {2, 9},
                 new int[] {3, 9}, new int[] {4, 9}, new int[] {5, 9}, new int[] {6, 9}), 1, 1);
-        ears("six heard by the last alone", Copse.birds(new int[] {0, 9}, new int[] {2, 7}, new int[] {4, 5},
+        ears("six heard by the last alone", birds(new int[] {0, 9}, new int[] {2, 7}, new int[] {4, 5},
                 new int[] {6, 3}, new int[] {8, 1}, new int[] {18, 9}, new int[] {9, 0}), 1, 64);
-        ears("one tree too far", Copse.birds(new int[] {0, 8}, new int[] {9, 0}), 2, 3);
-        ears("just as far: who is heard need not hear", Copse.birds(new int[] {0, 9}, new int[] {9, 0}), 1, 2);
-        ears("four ways: the lowest", Copse.birds(new int[] {0, 3}, new int[] {3, 3}, new int[] {8, 3},
+        ears("one tree too far", birds(new int[] {0, 8}, new int[] {9, 0}), 2, 3);
+        ears("just as far: who is heard need not hear", birds(new int[] {0, 9}, new int[] {9, 0}), 1, 2);
+        ears("four ways: the lowest", birds(new int[] {0, 3}, new int[] {3, 3}, new int[] {8, 3},
                 new int[] {11, 3}), 2, 5);
     }
 
@@ -329,19 +324,19 @@ public final class BoundsOnPaperTest {
     private static void loudestBird() {
         says("LOUDEST: the BIRD that most others HEAR; the lowest.");
         loudest("no birds", new DarkCommittee(), -1, -1);
-        loudest("one", Copse.birds(new int[] {4, 9}), 0, 0);
-        loudest("two away", Copse.birds(new int[] {-1, 9}, new int[] {-1, 9}), 0, 0);
-        loudest("one present: the lowest of none", Copse.birds(new int[] {-1, 9}, new int[] {4, 9}), 0, 0);
-        loudest("as far as its range", Copse.birds(new int[] {0, 3}, new int[] {4, 4}), 1, 1);
-        loudest("equal: the lowest", Copse.birds(new int[] {0, 4}, new int[] {4, 4}), 0, 1);
-        loudest("beyond: none", Copse.birds(new int[] {0, 3}, new int[] {4, 3}), 0, 0);
-        loudest("the last by six", Copse.birds(new int[] {4, 0}, new int[] {5, 0}, new int[] {6, 0}, new int[] {7, 0},
+        loudest("one", birds(new int[] {4, 9}), 0, 0);
+        loudest("two away", birds(new int[] {-1, 9}, new int[] {-1, 9}), 0, 0);
+        loudest("one present: the lowest of none", birds(new int[] {-1, 9}, new int[] {4, 9}), 0, 0);
+        loudest("as far as its range", birds(new int[] {0, 3}, new int[] {4, 4}), 1, 1);
+        loudest("equal: the lowest", birds(new int[] {0, 4}, new int[] {4, 4}), 0, 1);
+        loudest("beyond: none", birds(new int[] {0, 3}, new int[] {4, 3}), 0, 0);
+        loudest("the last by six", birds(new int[] {4, 0}, new int[] {5, 0}, new int[] {6, 0}, new int[] {7, 0},
                 new int[] {8, 0}, new int[] {9, 0}, new int[] {13, 9}), 6, 6);
     }
 
     private static void nearestTree() {
         says("(its own, too; from TREE 0, if it is AWAY); the lowest of two.");
-        DarkCommittee x = Copse.birds(new int[] {10, 0}, new int[] {10, 9, 9});
+        DarkCommittee x = birds(new int[] {10, 0}, new int[] {10, 9, 9});
         x.matter(1, 1);
         due("its own", x.nearest(0, 0), 10);
         due("nobody else is an aye", x.nearest(1, 0), -1);
@@ -360,7 +355,7 @@ public final class BoundsOnPaperTest {
         due("away: 19", x.nearest(0, 0), 19);
         x.fly(1, -1);
         due("none is there", x.nearest(0, 0), -1);
-        DarkCommittee y = Copse.birds(new int[] {9, 0}, new int[] {7, 0, 9}, new int[] {11, 0, 9},
+        DarkCommittee y = birds(new int[] {9, 0}, new int[] {7, 0, 9}, new int[] {11, 0, 9},
                 new int[] {12, 0, 9});
         y.matter(1, 1);
         due("the lowest of two", y.nearest(0, 0), 7);
@@ -370,24 +365,35 @@ public final class BoundsOnPaperTest {
         due("the lowest of two", y.nearest(0, 0), 6);
         y.fly(0, -1);
         due("from 0", y.nearest(0, 0), 6);
+        y.fly(1, 0);
+        due("0 itself", y.nearest(0, 0), 0);
+        DarkCommittee z = birds(new int[] {-1, 1}, new int[] {0, 0, 9});
+        z.matter(1, 1);
+        due("0, ahead of 1", z.nearest(0, 0), 0);
+        z.fly(1, 3);
+        due("2, ahead of 3 and 4", z.nearest(0, 0), 2);
+        z.fly(0, 1);
+        due("2 from 1", z.nearest(0, 0), 2);
+        z.fly(0, 5);
+        due("4 from 5", z.nearest(0, 0), 4);
         due("it stays away", y.of(0, 0), -1);
     }
 
     private static void nearestWhereItSits() {
         says("NEAREST: the TREE in which a BIRD, were it there, would be SITTING on a MATTER");
-        DarkCommittee x = Copse.birds(new int[] {18, 9, 0}, new int[] {19, 9, 9});
+        DarkCommittee x = birds(new int[] {18, 9, 0}, new int[] {19, 9, 9});
         x.matter(1, 1);
         int[] bars = {17, 18, 19};
         int[] nearest = {18, 19, -1};
         for (int i = 0; i < 3; i++) {
-            Copse.inForce(x, "bars if bird = 0 and not tree > " + bars[i]);
+            inForce(x, "bars if bird = 0 and not tree > " + bars[i]);
             due("not in " + bars[i] + " or below", x.nearest(0, 0), nearest[i]);
         }
-        Copse.inForce(x, "bars if bird = 0 and tree > 0 or bird = 0 and tree < 0");
+        inForce(x, "bars if bird = 0 and tree > 0 or bird = 0 and tree < 0");
         due("in 0 alone: too far to be heard", x.nearest(0, 0), -1);
         x.fly(1, 9);
         due("in 0 alone: just heard", x.nearest(0, 0), 0);
-        DarkCommittee y = Copse.birds(new int[] {5, 9, 9});
+        DarkCommittee y = birds(new int[] {5, 9, 9});
         y.matter(1, 1);
         due("none but itself", y.nearest(0, 0), -1);
         due("no bird 1", y.nearest(1, 0), -1);
@@ -399,7 +405,7 @@ public final class BoundsOnPaperTest {
     private static void itCanBe() {
         says("IT CAN BE: MATTERS on which all that was HEARD were so.");
         due("no matters", new DarkCommittee().canBe(), 0);
-        DarkCommittee x = Copse.birds(new int[] {4, 9, 9, 9, 4}, new int[] {4, 9, 9, 4, 4}, new int[] {-1, 9, 9, 9, 9});
+        DarkCommittee x = birds(new int[] {4, 9, 9, 9, 4}, new int[] {4, 9, 9, 4, 4}, new int[] {-1, 9, 9, 9, 9});
         for (int m = 0; m < 4; m++) {
             x.matter(1, 1);
         }
@@ -428,14 +434,14 @@ public final class BoundsOnPaperTest {
 
     private static void toListenFor() {
         says("the more of those on which it is an AYE and those on which it is not are as few as can be; the lowest.");
-        DarkCommittee x = Copse.birds();
+        DarkCommittee x = birds();
         listens("no birds, no matters", x, -1, -1);
         x.matter(1, 1);
         listens("no birds", x, -1, -1);
         x.heard(0);
         listens("no birds", x, -1, -1);
-        listens("no matters", Copse.birds(new int[] {4, 9}), -1, -1);
-        DarkCommittee y = Copse.willing(7, 6, 1, 1);
+        listens("no matters", birds(new int[] {4, 9}), -1, -1);
+        DarkCommittee y = willing(7, 6, 1, 1);
         listens("an aye on all six", y, 0, 6);
         for (int b = 1; b < 7; b++) {
             for (int m = 0; m < b; m++) {
@@ -453,8 +459,8 @@ public final class BoundsOnPaperTest {
 
     private static void toListenForOneThatWithdraws() {
         says("the more of those on which it is an AYE and those on which it is not are as few as can be; the lowest.");
-        DarkCommittee x = Copse.willing(7, 6, 1, 1);
-        Copse.inForce(x, "bars if bird = 4 and matter < 3 or bird = 5 and matter < 2");
+        DarkCommittee x = willing(7, 6, 1, 1);
+        inForce(x, "bars if bird = 4 and matter < 3 or bird = 5 and matter < 2");
         listens("4 withdraws from half of them", x, 4, 3);
         x.fly(4, -1);
         listens("5 withdraws from a third", x, 5, 4);
@@ -464,12 +470,12 @@ public final class BoundsOnPaperTest {
 
     private static void compared() {
         says("COMPARED: how many AYES there are on a MATTER by a LAW in place of that in FORCE (NONE: none).");
-        DarkCommittee x = Copse.willing(7, 2, 1, 1);
+        DarkCommittee x = willing(7, 2, 1, 1);
         for (int b = 0; b < 4; b++) {
             x.favour(b, 1, 4);
         }
         for (int l = 0; l < 6; l++) {
-            Copse.law(x, "sways 9 if bird < " + l + "; bars if bird > " + (l + 3));
+            law(x, "sways 9 if bird < " + l + "; bars if bird > " + (l + 3));
         }
         x.force(2);
         int[] ayes = {0, 2, 4, 6, 7, 7};

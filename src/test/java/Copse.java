@@ -8,8 +8,8 @@ import java.nio.file.Path;
 import java.util.Arrays;
 import java.util.Comparator;
 
-/** A DarkCommittee as tests use it: TEXTS are Strings here, and wrong answers are counted. */
-final class Copse {
+/** What tests share: a DarkCommittee as they use it, TEXTS as Strings, and a count of wrong answers. */
+abstract class Copse {
     private static final Path DOCUMENT = Path.of("../shared/DOC.md");
 
     private static int wrong = 0;
@@ -18,7 +18,7 @@ final class Copse {
     private static String document = null;
     private static String sentence = "";
 
-    private Copse() {
+    Copse() {
     }
 
     static void due(String what, long got, long want) {
@@ -128,6 +128,10 @@ final class Copse {
     static int orders(DarkCommittee x, String text) {
         feed(x, text);
         return x.orders();
+    }
+
+    static DarkCommittee fresh() {
+        return new DarkCommittee();
     }
 
     /** BIRDS, each told by its TREE, its RANGE and its FAVOUR for MATTERS from 0 on. */

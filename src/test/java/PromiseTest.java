@@ -1,14 +1,6 @@
 /** Each promise of the document by hand: ordinary inputs, the edges that it names, wrong inputs. */
-public final class PromiseTest {
+public final class PromiseTest extends Copse {
     private PromiseTest() {
-    }
-
-    private static void due(String what, long got, long want) {
-        Copse.due(what, got, want);
-    }
-
-    private static DarkCommittee fresh() {
-        return new DarkCommittee();
     }
 
     /** BIRDS in one TREE, heard everywhere near, all with the FAVOUR told for MATTER 0 (5 CLAUSES, RICH 4). */
@@ -37,17 +29,12 @@ public final class PromiseTest {
         return x;
     }
 
-    private static void refusedBy(String what, DarkCommittee x, long got, int by) {
-        due(what, got, by);
-        due(what + ": status", x.status(), by);
-    }
-
     public static void main(String[] args) throws IllegalAccessException {
-        Copse.runAll(PromiseTest.class);
+        runAll(PromiseTest.class);
     }
 
     private static void promise1NewObject() {
-        Copse.says("`DarkCommittee()`");
+        says("`DarkCommittee()`");
         DarkCommittee x = fresh();
         int[] counts = {0, 0, 0, 0, 0, 0, 0, 0, 0, 0, 0, 0, 0, -1, 0, 1, 0, 1};
         for (int what = 0; what < counts.length; what++) {
@@ -63,7 +50,7 @@ public final class PromiseTest {
     }
 
     private static void promise2Bird() {
-        Copse.says("`int bird(int tree, int range)`");
+        says("`int bird(int tree, int range)`");
         DarkCommittee x = fresh();
         due("bird", x.bird(19, 9), 0);
         due("bird away", x.bird(-1, 0), 1);
@@ -72,32 +59,32 @@ public final class PromiseTest {
         due("its range", x.of(0, 1), 9);
         due("away", x.of(1, 0), -1);
         due("no favour", x.of(0, 3), 0);
-        refusedBy("tree 20", x, x.bird(20, 0), -1);
-        refusedBy("tree -2", x, x.bird(-2, 0), -1);
-        refusedBy("range 10", x, x.bird(0, 10), -1);
-        refusedBy("range -1", x, x.bird(0, -1), -1);
+        refused("tree 20", x, x.bird(20, 0), -1);
+        refused("tree -2", x, x.bird(-2, 0), -1);
+        refused("range 10", x, x.bird(0, 10), -1);
+        refused("range -1", x, x.bird(0, -1), -1);
         for (int b = 3; b < 7; b++) {
             due("bird " + b, x.bird(b, b), b);
         }
-        refusedBy("an eighth bird", x, x.bird(0, 0), -5);
-        refusedBy("an eighth that can't be", x, x.bird(20, 0), -1);
+        refused("an eighth bird", x, x.bird(0, 0), -5);
+        refused("an eighth that can't be", x, x.bird(20, 0), -1);
         due("seven birds", x.count(0), 7);
     }
 
     private static void promise3Favour() {
-        Copse.says("`int favour(int bird, int matter, int n)`");
+        says("`int favour(int bird, int matter, int n)`");
         DarkCommittee x = fresh();
         x.bird(0, 0);
         due("favour was", x.favour(0, 5, 9), 0);
         due("favour was then", x.favour(0, 5, 3), 9);
         due("favour is", x.of(0, 8), 3);
         due("for another", x.of(0, 7), 0);
-        refusedBy("matter 6", x, x.favour(0, 6, 0), -1);
-        refusedBy("matter -1", x, x.favour(0, -1, 0), -1);
-        refusedBy("n 10", x, x.favour(0, 0, 10), -1);
-        refusedBy("n -1", x, x.favour(9, 0, -1), -1);
-        refusedBy("no bird 1", x, x.favour(1, 0, 0), -2);
-        refusedBy("no bird -1", x, x.favour(-1, 0, 0), -2);
+        refused("matter 6", x, x.favour(0, 6, 0), -1);
+        refused("matter -1", x, x.favour(0, -1, 0), -1);
+        refused("n 10", x, x.favour(0, 0, 10), -1);
+        refused("n -1", x, x.favour(9, 0, -1), -1);
+        refused("no bird 1", x, x.favour(1, 0, 0), -2);
+        refused("no bird -1", x, x.favour(-1, 0, 0), -2);
         x.fly(0, 3);
         x.favour(0, 0, 4);
         due("favour leaves what can be undone", x.undo(), 2);
@@ -105,7 +92,7 @@ public final class PromiseTest {
     }
 
     private static void promise4Of() {
-        Copse.says("`int of(int bird, int what)`");
+        says("`int of(int bird, int what)`");
         DarkCommittee x = fresh();
         x.bird(5, 2);
         x.bird(7, 1);
@@ -136,26 +123,26 @@ public final class PromiseTest {
     }
 
     private static void promise5Matter() {
-        Copse.says("`int matter(int clauses, int rich)`");
+        says("`int matter(int clauses, int rich)`");
         DarkCommittee x = fresh();
         due("matter", x.matter(9, 0), 0);
         due("matter", x.matter(1, 9), 1);
         due("clauses", x.at(0, 0), 9);
         due("rich", x.at(1, 1), 9);
         due("lies", x.at(1, 2), 0);
-        refusedBy("clauses 0", x, x.matter(0, 0), -1);
-        refusedBy("clauses 10", x, x.matter(10, 0), -1);
-        refusedBy("rich -1", x, x.matter(1, -1), -1);
-        refusedBy("rich 10", x, x.matter(1, 10), -1);
+        refused("clauses 0", x, x.matter(0, 0), -1);
+        refused("clauses 10", x, x.matter(10, 0), -1);
+        refused("rich -1", x, x.matter(1, -1), -1);
+        refused("rich 10", x, x.matter(1, 10), -1);
         for (int m = 2; m < 6; m++) {
             due("matter " + m, x.matter(m, m), m);
         }
-        refusedBy("a seventh", x, x.matter(1, 1), -5);
-        refusedBy("a seventh that can't be", x, x.matter(0, 1), -1);
+        refused("a seventh", x, x.matter(1, 1), -5);
+        refused("a seventh that can't be", x, x.matter(0, 1), -1);
     }
 
     private static void promise6At() {
-        Copse.says("`int at(int matter, int what)`");
+        says("`int at(int matter, int what)`");
         DarkCommittee x = together(5, 4, 9, 0);
         x.fly(3, -1);
         due("clauses", x.at(0, 0), 5);
@@ -188,29 +175,29 @@ public final class PromiseTest {
     }
 
     private static void promise7Terms() {
-        Copse.says("`int terms(int what, int value)`");
+        says("`int terms(int what, int value)`");
         DarkCommittee x = fresh();
         int[] first = {0, 1, 0, 1};
         int[] most = {999, 10, 9, 7};
         for (int what = 0; what < 4; what++) {
             due("term was " + what, x.terms(what, most[what]), first[what]);
             due("term is " + what, x.count(14 + what), most[what]);
-            refusedBy("too much of " + what, x, x.terms(what, most[what] + 1), -1);
-            refusedBy("below 0 of " + what, x, x.terms(what, -1), -1);
+            refused("too much of " + what, x, x.terms(what, most[what] + 1), -1);
+            refused("below 0 of " + what, x, x.terms(what, -1), -1);
             due("term was then " + what, x.terms(what, 0), most[what]);
         }
-        refusedBy("term 4", x, x.terms(4, 0), -1);
-        refusedBy("term -1", x, x.terms(-1, 0), -1);
+        refused("term 4", x, x.terms(4, 0), -1);
+        refused("term -1", x, x.terms(-1, 0), -1);
         x.bird(0, 0);
         x.fly(0, 1);
         x.terms(9, 9);
         due("refused, it forgets nothing", x.count(6), 1);
         x.terms(2, 0);
-        refusedBy("nothing to undo behind terms", x, x.undo(), -3);
+        refused("nothing to undo behind terms", x, x.undo(), -3);
     }
 
     private static void promise8Feed() {
-        Copse.says("`int feed(int a, int b, int c, int d, int e)`");
+        says("`int feed(int a, int b, int c, int d, int e)`");
         DarkCommittee x = fresh();
         for (int i = 1; i <= 20; i++) {
             due("fed " + i, x.feed(0x20202020, 0, -1, Integer.MIN_VALUE, 5), 20 * i);
@@ -227,11 +214,11 @@ public final class PromiseTest {
     }
 
     private static void promise9End() {
-        Copse.says("`int end(int n)`");
+        says("`int end(int n)`");
         DarkCommittee x = fresh();
         due("end of nothing", x.end(0), 0);
         due("end beyond nothing", x.end(1), -1);
-        Copse.feed(x, "barsif");
+        feed(x, "barsif");
         due("six bytes", x.count(7), 6);
         due("end beyond", x.end(7), -1);
         due("end below", x.end(-1), -1);
@@ -244,10 +231,10 @@ public final class PromiseTest {
     }
 
     private static void promise10Row() {
-        Copse.says("`int row()`");
+        says("`int row()`");
         DarkCommittee x = fresh();
-        refusedBy("an empty tape", x, x.row(), -6);
-        Copse.feed(x, 19, 9, 1, 2, 3, 4, 5, 9, 0, 0, 0, 0, 0, 0, 0, 0);
+        refused("an empty tape", x, x.row(), -6);
+        feed(x, 19, 9, 1, 2, 3, 4, 5, 9, 0, 0, 0, 0, 0, 0, 0, 0);
         due("two birds", x.row(), 2);
         due("the tape is empty", x.count(7), 0);
         due("tree", x.of(0, 0), 19);
@@ -255,14 +242,14 @@ public final class PromiseTest {
         for (int m = 0; m < 6; m++) {
             due("favour " + m, x.of(0, 3 + m), m == 5 ? 9 : m + 1);
         }
-        Copse.feed(x, 20, 0, 0, 0, 0, 0, 0, 0, 0, 10, 0, 0, 0, 0, 0, 0, 0, 0, 0, 0, 0, 0, 0, 10,
+        feed(x, 20, 0, 0, 0, 0, 0, 0, 0, 0, 10, 0, 0, 0, 0, 0, 0, 0, 0, 0, 0, 0, 0, 0, 10,
                 255, 0, 0, 0, 0, 0, 0, 0, 3, 3, 3, 3, 3, 3, 3, 3, 1, 1, 1, 1, 1, 1, 1);
         x.fly(0, 0);
         due("one between cats", x.row(), 1);
         due("five cats", x.cats(), 5);
         due("nothing to undo behind a row", x.count(6), 0);
         due("the bird between", x.of(2, 8), 3);
-        Copse.feed(x, 1, 1, 1, 1, 1, 1, 1, 1, 2, 2, 2, 2, 2, 2, 2, 2, 3, 3, 3, 3, 3, 3, 3, 3, 4, 4, 4, 4, 4, 4, 4, 4,
+        feed(x, 1, 1, 1, 1, 1, 1, 1, 1, 2, 2, 2, 2, 2, 2, 2, 2, 3, 3, 3, 3, 3, 3, 3, 3, 4, 4, 4, 4, 4, 4, 4, 4,
                 5, 5, 5, 5, 5, 5, 5, 5, 6, 6, 6, 6, 6, 6, 6, 6);
         due("room for four", x.row(), 4);
         due("two had none", x.cats(), 2);
@@ -276,45 +263,45 @@ public final class PromiseTest {
         due("two more, but four bytes", y.row(), 2);
         due("four bytes are a cat", y.cats(), 1);
         x.pass();
-        Copse.feed(x, 99);
+        feed(x, 99);
         due("a cat alone", x.row(), 0);
         due("a row of cats forgets too", x.count(6), 0);
         due("status", x.status(), 0);
     }
 
     private static void promise11Cats() {
-        Copse.says("`int cats()`");
+        says("`int cats()`");
         DarkCommittee x = fresh();
         due("no row yet", x.cats(), 0);
-        Copse.feed(x, 77, 1, 1);
+        feed(x, 77, 1, 1);
         x.row();
         due("one cat", x.cats(), 1);
         x.row();
         due("refused, it counts none", x.cats(), 1);
-        Copse.feed(x, 1, 1, 1, 1, 1, 1, 1, 1);
+        feed(x, 1, 1, 1, 1, 1, 1, 1, 1);
         x.row();
         due("no cat", x.cats(), 0);
     }
 
     private static void promise12Law() {
-        Copse.says("`int law()`");
+        says("`int law()`");
         DarkCommittee x = fresh();
-        due("law", Copse.law(x, "sways 5"), 0);
+        due("law", law(x, "sways 5"), 0);
         due("the tape is empty", x.count(7), 0);
         x.bird(0, 0);
         x.fly(0, 1);
-        due("law", Copse.law(x, "takes 5;bars if bird=1"), 1);
+        due("law", law(x, "takes 5;bars if bird=1"), 1);
         due("a law leaves what can be undone", x.count(6), 1);
-        refusedBy("an empty tape", x, x.law(), -6);
+        refused("an empty tape", x, x.law(), -6);
         due("fault at its end", x.fault(), 0);
-        refusedBy("blanks", x, Copse.law(x, "   "), -6);
+        refused("blanks", x, law(x, "   "), -6);
         due("fault at their end", x.fault(), 3);
-        refusedBy("orders", x, Copse.law(x, "pass"), -6);
+        refused("orders", x, law(x, "pass"), -6);
         due("empty then, too", x.count(7), 0);
         for (int l = 2; l < 6; l++) {
-            due("law " + l, Copse.law(x, "bars"), l);
+            due("law " + l, law(x, "bars"), l);
         }
-        refusedBy("a seventh", x, Copse.law(x, "no law"), -5);
+        refused("a seventh", x, law(x, "no law"), -5);
         due("not read", x.fault(), -1);
         due("empty then, too", x.count(7), 0);
         due("six laws", x.count(5), 6);
@@ -329,12 +316,12 @@ public final class PromiseTest {
         x.favour(1, 1, 6);
         x.terms(2, mood);
         x.terms(0, 30);
-        Copse.inForce(x, law);
+        inForce(x, law);
         return x.of(1, 10);
     }
 
     private static void lawsAreAsked() {
-        Copse.says("\"sways\", \"bars\" are asked of a BIRD and a MATTER");
+        says("\"sways\", \"bars\" are asked of a BIRD and a MATTER");
         due("bird", swayedBy("sways bird", 0), 1);
         due("tree", swayedBy("sways tree - 8", 0), 4);
         due("favour", swayedBy("sways favour+1", 0), 7);
@@ -365,23 +352,23 @@ public final class PromiseTest {
         due("more", swayedBy("sways 1 if 2>2 or 3>2", 0), 1);
         due("blanks or none", swayedBy("  sways3if 1<  2  ", 0), 3);
         DarkCommittee x = together(9, 9);
-        Copse.inForce(x, "takes tree + bird + favour + 5; bars if bird = 1");
+        inForce(x, "takes tree + bird + favour + 5; bars if bird = 1");
         due("takes: no bird, no tree, no favour", x.at(0, 3), 2);
         due("who withdraws", x.at(0, 4), 1);
         due("none to second", x.second(0, 0), -1);
         due("but for it: one that withdraws moves", x.second(0, 1), 0);
         x.fly(0, -1);
-        due("away: tree -1", Copse.law(x, "sways 5 + tree"), 1);
+        due("away: tree -1", law(x, "sways 5 + tree"), 1);
         x.force(1);
         due("swayed away", x.of(0, 9), 4);
-        Copse.inForce(x, "takes 10");
+        inForce(x, "takes 10");
         due("takes 9 at most", x.at(0, 3), 9);
-        Copse.inForce(x, "takes 3-3");
+        inForce(x, "takes 3-3");
         due("takes 1 at least", x.at(0, 3), 1);
     }
 
     private static void brokenSums() {
-        Copse.says("a SUM, a TEST is BROKEN");
+        says("a SUM, a TEST is BROKEN");
         due("1,000,000,000", swayedBy("sways 1 if 1000*1000*1000 > 0", 0), 1);
         due("beyond it", swayedBy("sways 1 if 1000*1000*1000+1 > 0", 0), 6);
         due("1,000,000,000 below", swayedBy("sways 1 if 0-1000*1000*1000 < 0", 0), 1);
@@ -398,31 +385,27 @@ public final class PromiseTest {
         due("a long row of and", swayedBy("sways 1 if 1=2 and 1/0=1 and 1/0=1", 0), 6);
         due("not of what asks no more", swayedBy("sways 1 if not (1=2 and 1/0=1)", 0), 1);
         DarkCommittee x = together(9, 9);
-        Copse.inForce(x, "bars if 1/bird = 1");
+        inForce(x, "bars if 1/bird = 1");
         due("bars: broken, it does not hold", x.at(0, 4), 1);
         DarkCommittee y = together(9, 9);
-        due("orders: a broken if is not run", Copse.orders(y, "pass if 1/0=1;pass"), 1);
-        due("orders: a broken sum can't be", Copse.orders(y, "pass;fly 1/0 to 3"), -3);
-    }
-
-    private static String again(String s, int n) {
-        return s.repeat(n);
+        due("orders: a broken if is not run", orders(y, "pass if 1/0=1;pass"), 1);
+        due("orders: a broken sum can't be", orders(y, "pass;fly 1/0 to 3"), -3);
     }
 
     private static int faultOf(String law) {
         DarkCommittee x = fresh();
-        Copse.law(x, law);
+        law(x, law);
         return x.fault();
     }
 
     private static int faultOfOrders(String orders) {
         DarkCommittee x = fresh();
-        Copse.orders(x, orders);
+        orders(x, orders);
         return x.fault();
     }
 
     private static void limitsOfTexts() {
-        Copse.says("FAULT: the first TOKEN that can't go on there");
+        says("FAULT: the first TOKEN that can't go on there");
         due("12 clauses", faultOf("bars" + again(";bars", 11)), -1);
         due("a 13th", faultOf("bars" + again(";bars", 12)), 60);
         due("a 13th, whatever it is", faultOf("bars" + again(";bars", 11) + ";  ?"), 62);
@@ -487,61 +470,61 @@ public final class PromiseTest {
     }
 
     private static void manyTextsOfOne() {
-        Copse.says("TEXTS are on a TAPE of at most 400 bytes.");
+        says("TEXTS are on a TAPE of at most 400 bytes.");
         DarkCommittee x = together(9, 9);
         String one = "fly 0 to [tree 0 + 1 + 0 + 0 + 0 + 0 + 0 + 0] % 20 if (1 = 1 or 2 = 2) and 3 = 3";
         for (int i = 1; i <= 33; i++) {
-            due("orders " + i, Copse.orders(x, one), 1);
+            due("orders " + i, orders(x, one), 1);
             due("flown on " + i, x.of(0, 0), (4 + i) % 20);
-            due("no law " + i, Copse.law(x, "sways 1 + 2 + 3 + 4 + 5 +"), -6);
+            due("no law " + i, law(x, "sways 1 + 2 + 3 + 4 + 5 +"), -6);
         }
-        due("parts are counted anew", Copse.law(x, "sways 1" + again("+0", 49)), 0);
-        due("and again", Copse.law(x, "sways 1" + again("+1", 49)), 1);
+        due("parts are counted anew", law(x, "sways 1" + again("+0", 49)), 0);
+        due("and again", law(x, "sways 1" + again("+1", 49)), 1);
     }
 
     private static void promise13Orders() {
-        Copse.says("`int orders()`");
+        says("`int orders()`");
         DarkCommittee x = together(9, 9, 0);
-        due("orders", Copse.orders(x, "move 0 by 0; divide 0; fly 2 to 7; fly 1 to 0-1; pass"), 5);
+        due("orders", orders(x, "move 0 by 0; divide 0; fly 2 to 7; fly 1 to 0-1; pass"), 5);
         due("carried", x.at(0, 2), 2);
         due("flown", x.of(2, 0), 7);
         due("away", x.of(1, 0), -1);
         due("night", x.count(14), 1);
         due("all can be undone", x.count(6), 5);
         due("the tape is empty", x.count(7), 0);
-        due("none run", Copse.orders(x, "pass if 1=2"), 0);
-        due("times", Copse.orders(x, "pass times 3"), 3);
-        due("each time its if is asked", Copse.orders(x, "pass times 20 if night < 7"), 3);
+        due("none run", orders(x, "pass if 1=2"), 0);
+        due("times", orders(x, "pass times 3"), 3);
+        due("each time its if is asked", orders(x, "pass times 20 if night < 7"), 3);
         due("night 7", x.count(14), 7);
-        due("done", Copse.orders(x, "pass times 4;fly done to done;fly 2 to 3 if done = 4"), -3);
-        due("done from 0", Copse.orders(x, "pass times 2;fly done to done"), 3);
+        due("done", orders(x, "pass times 4;fly done to done;fly 2 to 3 if done = 4"), -3);
+        due("done from 0", orders(x, "pass times 2;fly done to done"), 3);
         due("2 flew to 2", x.of(2, 0), 2);
-        due("present", Copse.orders(x, "fly 0 to 10+present"), 1);
+        due("present", orders(x, "fly 0 to 10+present"), 1);
         due("two are present", x.of(0, 0), 12);
-        due("tree", Copse.orders(x, "fly 0 to tree 2+5 if tree 1 < 0 and tree 6 < 0 and stands 1 < 0"), 1);
+        due("tree", orders(x, "fly 0 to tree 2+5 if tree 1 < 0 and tree 6 < 0 and stands 1 < 0"), 1);
         due("0 flew to 7", x.of(0, 0), 7);
-        due("each time its sums", Copse.orders(x, "fly 0 to tree 0+1 times 12"), 12);
+        due("each time its sums", orders(x, "fly 0 to tree 0+1 times 12"), 12);
         due("0 flew on", x.of(0, 0), 19);
         DarkCommittee y = together(9, 9, 0, 9);
-        due("latest, clock, stands", Copse.orders(y, "fly 3 to 9 if latest < 0;move 0 by 1 if stands 0 = 0;"
+        due("latest, clock, stands", orders(y, "fly 3 to 9 if latest < 0;move 0 by 1 if stands 0 = 0;"
                 + "divide 0 if stands 0=1;fly 0 to 10+latest if clock = 5;fly 1 to latest if stands 0 = 2"), 5);
         due("three ayes: 13", y.of(0, 0), 13);
         due("and 3", y.of(1, 0), 3);
-        refusedBy("a fault", y, Copse.orders(y, "pass;pas"), -6);
-        refusedBy("an empty tape", y, y.orders(), -6);
+        refused("a fault", y, orders(y, "pass;pas"), -6);
+        refused("an empty tape", y, y.orders(), -6);
         due("not run in part", y.count(14), 0);
         due("empty then, too", y.count(7), 0);
-        due("latest is of this text", Copse.orders(y, "fly 2 to 6 if latest = 0-1"), 1);
+        due("latest is of this text", orders(y, "fly 2 to 6 if latest = 0-1"), 1);
     }
 
     private static void ordersAreWhole() {
-        Copse.says("ends it: all is as it was ahead of it.");
+        says("ends it: all is as it was ahead of it.");
         DarkCommittee x = together(9, 9, 0);
         x.terms(0, 998);
         x.fly(0, 3);
         x.fly(0, 4);
         x.move(0, 1);
-        refusedBy("night 999 can't pass", x, Copse.orders(x, "divide 0;fly 0 to 9;pass times 2"), -3);
+        refused("night 999 can't pass", x, orders(x, "divide 0;fly 0 to 9;pass times 2"), -3);
         due("its clause", x.stopped(), 2);
         due("still moved", x.at(0, 2), 1);
         due("the clock is back", x.count(3), 0);
@@ -557,61 +540,61 @@ public final class PromiseTest {
             y.fly(0, tree);
         }
         due("more than are kept, then one that can't be",
-                Copse.orders(y, "fly 1 to tree 1+1 times 15;fly 2 to 9;fly 2 to 9"), -3);
+                orders(y, "fly 1 to tree 1+1 times 15;fly 2 to 9;fly 2 to 9"), -3);
         due("nine kept", y.count(6), 9);
         for (int tree = 12; tree >= 4; tree--) {
             y.undo();
             due("back in " + tree, y.of(0, 0), tree);
         }
         due("no more", y.undo(), -3);
-        due("no bird", Copse.orders(y, "fly 3 to 1"), -3);
-        due("no matter", Copse.orders(y, "divide 1"), -3);
-        due("a tree beyond", Copse.orders(y, "fly 0 to 20"), -3);
-        due("a tree below", Copse.orders(y, "fly 0 to 0-2"), -3);
-        due("one that stays", Copse.orders(y, "fly 0 to 4"), -3);
+        due("no bird", orders(y, "fly 3 to 1"), -3);
+        due("no matter", orders(y, "divide 1"), -3);
+        due("a tree beyond", orders(y, "fly 0 to 20"), -3);
+        due("a tree below", orders(y, "fly 0 to 0-2"), -3);
+        due("one that stays", orders(y, "fly 0 to 4"), -3);
     }
 
     private static void promise14Fault() {
-        Copse.says("`int fault()`");
+        says("`int fault()`");
         DarkCommittee x = fresh();
         due("none read", x.fault(), -1);
-        Copse.law(x, "sways x");
+        law(x, "sways x");
         due("of a law", x.fault(), 6);
-        Copse.orders(x, "pas");
+        orders(x, "pas");
         due("of orders", x.fault(), 0);
-        Copse.orders(x, "divide 0");
+        orders(x, "divide 0");
         due("orders that can't be have none", x.fault(), -1);
-        Copse.law(x, "sways");
+        law(x, "sways");
         due("of a law at the end", x.fault(), 5);
-        Copse.law(x, "sways 1   ?");
+        law(x, "sways 1   ?");
         due("behind blanks", x.fault(), 10);
-        Copse.law(x, "bars");
+        law(x, "bars");
         due("a law without", x.fault(), -1);
-        Copse.law(x, "sways 1 + ");
+        law(x, "sways 1 + ");
         due("the end is behind the blanks", x.fault(), 10);
     }
 
     private static void promise15Stopped() {
-        Copse.says("`int stopped()`");
+        says("`int stopped()`");
         DarkCommittee x = together(1, 1);
         due("ahead of any", x.stopped(), -1);
-        Copse.orders(x, "pass;pass times 2;fly 0 to 4;pass");
+        orders(x, "pass;pass times 2;fly 0 to 4;pass");
         due("the third", x.stopped(), 2);
-        Copse.law(x, "bars");
+        law(x, "bars");
         due("a law leaves it", x.stopped(), 2);
-        Copse.orders(x, "pass;");
+        orders(x, "pass;");
         due("a fault: none", x.stopped(), -1);
-        Copse.orders(x, "divide 0");
+        orders(x, "divide 0");
         due("the first", x.stopped(), 0);
-        Copse.orders(x, "pass");
+        orders(x, "pass");
         due("done: none", x.stopped(), -1);
     }
 
     private static void promise16Force() {
-        Copse.says("`int force(int law)`");
+        says("`int force(int law)`");
         DarkCommittee x = together(1, 1);
-        Copse.law(x, "sways 7");
-        Copse.law(x, "sways 8");
+        law(x, "sways 7");
+        law(x, "sways 8");
         due("no law yet", x.of(0, 9), 1);
         x.pass();
         due("was none", x.force(1), -1);
@@ -619,8 +602,8 @@ public final class PromiseTest {
         due("in force", x.of(0, 9), 8);
         due("was 1", x.force(0), 1);
         due("count 13", x.count(13), 0);
-        refusedBy("no law 2", x, x.force(2), -2);
-        refusedBy("no law -2", x, x.force(-2), -2);
+        refused("no law 2", x, x.force(2), -2);
+        refused("no law -2", x, x.force(-2), -2);
         due("still 0", x.of(0, 9), 7);
         due("none again", x.force(-1), 0);
         due("favour again", x.of(0, 9), 1);
@@ -628,47 +611,47 @@ public final class PromiseTest {
     }
 
     private static void promise17Move() {
-        Copse.says("`int move(int matter, int bird)`");
+        says("`int move(int matter, int bird)`");
         DarkCommittee x = together(9, 4, 9, 9);
         due("seconded by 0", x.move(0, 1), 0);
-        refusedBy("moved already", x, x.move(0, 1), -3);
-        refusedBy("no matter", x, x.move(1, 0), -2);
-        refusedBy("no bird", x, x.move(0, 4), -2);
-        refusedBy("no bird -1", x, x.move(0, -1), -2);
+        refused("moved already", x, x.move(0, 1), -3);
+        refused("no matter", x, x.move(1, 0), -2);
+        refused("no bird", x, x.move(0, 4), -2);
+        refused("no bird -1", x, x.move(0, -1), -2);
         x.undo();
         due("not by itself", x.move(0, 0), 2);
         DarkCommittee y = together(9, 4);
-        refusedBy("nobody else is an aye", y, y.move(0, 0), -3);
+        refused("nobody else is an aye", y, y.move(0, 0), -3);
         due("0 seconds 1", y.second(0, 1), 0);
-        Copse.inForce(y, "bars if bird = 1");
-        refusedBy("one that withdraws", y, y.move(0, 1), -3);
+        inForce(y, "bars if bird = 1");
+        refused("one that withdraws", y, y.move(0, 1), -3);
         y.force(-1);
         y.fly(0, 9);
         due("as far as 5", y.move(0, 1), 0);
         y.undo();
         y.fly(0, 10);
-        refusedBy("too far", y, y.move(0, 1), -3);
+        refused("too far", y, y.move(0, 1), -3);
         y.fly(1, -1);
-        refusedBy("away", y, y.move(0, 1), -3);
+        refused("away", y, y.move(0, 1), -3);
         due("lies still", y.at(0, 2), 0);
     }
 
     private static void promise18Divide() {
-        Copse.says("`int divide(int matter)`");
+        says("`int divide(int matter)`");
         DarkCommittee x = together(9, 9, 4, 0);
-        refusedBy("it lies", x, x.divide(0), -3);
-        refusedBy("no matter", x, x.divide(1), -2);
-        refusedBy("no matter -1", x, x.divide(-1), -2);
+        refused("it lies", x, x.divide(0), -3);
+        refused("no matter", x, x.divide(1), -2);
+        refused("no matter -1", x, x.divide(-1), -2);
         x.move(0, 0);
         due("two ayes", x.divide(0), 2);
         due("of four: lost", x.at(0, 2), 3);
         due("five later", x.count(3), 5);
-        refusedBy("no more", x, x.divide(0), -3);
+        refused("no more", x, x.divide(0), -3);
         x.pass();
         x.favour(2, 0, 5);
         x.move(0, 0);
         x.terms(3, 5);
-        refusedBy("no quorum", x, x.divide(0), -3);
+        refused("no quorum", x, x.divide(0), -3);
         x.terms(3, 4);
         due("three ayes", x.divide(0), 3);
         due("carried", x.at(0, 2), 2);
@@ -680,15 +663,15 @@ public final class PromiseTest {
             y.divide(m);
         }
         due("45", y.count(3), 45);
-        refusedBy("54", y, y.divide(5), -3);
-        Copse.inForce(y, "takes 4");
-        refusedBy("49", y, y.divide(5), -3);
-        Copse.inForce(y, "takes 48-clock");
+        refused("54", y, y.divide(5), -3);
+        inForce(y, "takes 4");
+        refused("49", y, y.divide(5), -3);
+        inForce(y, "takes 48-clock");
         due("48", y.divide(5), 5);
         due("light", y.count(3), 48);
         DarkCommittee z = willing(1, 3, 1);
         z.terms(3, 0);
-        Copse.inForce(z, "bars if clock < 9");
+        inForce(z, "bars if clock < 9");
         due("nobody sits, nobody moves", z.move(0, 0), -3);
         z.force(-1);
         z.move(0, 0);
@@ -698,7 +681,7 @@ public final class PromiseTest {
     }
 
     private static void promise19Fly() {
-        Copse.says("`int fly(int bird, int tree)`");
+        says("`int fly(int bird, int tree)`");
         DarkCommittee x = fresh();
         x.bird(3, 1);
         x.bird(-1, 1);
@@ -706,16 +689,16 @@ public final class PromiseTest {
         due("to 19", x.of(0, 0), 19);
         due("away from 19", x.fly(0, -1), 19);
         due("from away", x.fly(0, 0), 20);
-        refusedBy("there already", x, x.fly(0, 0), -3);
-        refusedBy("away already", x, x.fly(1, -1), -3);
-        refusedBy("tree 20", x, x.fly(0, 20), -1);
-        refusedBy("tree -2", x, x.fly(5, -2), -1);
-        refusedBy("no bird", x, x.fly(2, 1), -2);
-        refusedBy("no bird -1", x, x.fly(-1, 1), -2);
+        refused("there already", x, x.fly(0, 0), -3);
+        refused("away already", x, x.fly(1, -1), -3);
+        refused("tree 20", x, x.fly(0, 20), -1);
+        refused("tree -2", x, x.fly(5, -2), -1);
+        refused("no bird", x, x.fly(2, 1), -2);
+        refused("no bird -1", x, x.fly(-1, 1), -2);
     }
 
     private static void promise20Pass() {
-        Copse.says("`int pass()`");
+        says("`int pass()`");
         DarkCommittee x = willing(4, 2, 3);
         x.favour(0, 3, 0);
         x.move(0, 0);
@@ -733,14 +716,14 @@ public final class PromiseTest {
         due("night 1", x.count(14), 1);
         x.terms(0, 998);
         due("to 999", x.pass(), 3);
-        refusedBy("the last", x, x.pass(), -3);
+        refused("the last", x, x.pass(), -3);
         due("999", x.count(14), 999);
     }
 
     private static void promise21Undo() {
-        Copse.says("`int undo()`");
+        says("`int undo()`");
         DarkCommittee x = together(9, 9);
-        refusedBy("none", x, x.undo(), -3);
+        refused("none", x, x.undo(), -3);
         x.move(0, 0);
         x.divide(0);
         x.fly(0, -1);
@@ -755,7 +738,7 @@ public final class PromiseTest {
         due("clock 0", x.count(3), 0);
         due("move", x.undo(), 0);
         due("lies", x.at(0, 2), 0);
-        refusedBy("none is left", x, x.undo(), -3);
+        refused("none is left", x, x.undo(), -3);
         for (int i = 0; i < 20; i++) {
             x.fly(0, i % 2);
         }
@@ -765,7 +748,7 @@ public final class PromiseTest {
         for (int i = 0; i < 16; i++) {
             due("undo " + i, x.undo(), 2);
         }
-        refusedBy("no 17th", x, x.undo(), -3);
+        refused("no 17th", x, x.undo(), -3);
         due("as it was 16 ago", x.of(0, 0), 0);
         x.pass();
         x.bird(77, 0);
@@ -785,7 +768,7 @@ public final class PromiseTest {
     }
 
     private static void promise22Second() {
-        Copse.says("`int second(int matter, int bird)`");
+        says("`int second(int matter, int bird)`");
         DarkCommittee x = together(4, 9, 9);
         due("the lowest", x.second(0, 0), 1);
         due("another", x.second(0, 1), 2);
@@ -804,7 +787,7 @@ public final class PromiseTest {
     }
 
     private static void promise23Richest() {
-        Copse.says("`int richest(int i)`");
+        says("`int richest(int i)`");
         DarkCommittee x = fresh();
         due("none", x.richest(-1), 0);
         due("none", x.richest(0), -1);
@@ -845,18 +828,18 @@ public final class PromiseTest {
     }
 
     private static void richestByTheClock() {
-        Copse.says("(CLOCK going on as they TAKE)");
+        says("(CLOCK going on as they TAKE)");
         DarkCommittee x = willing(3, 3, 4);
         for (int m = 0; m < 3; m++) {
             x.move(m, 0);
         }
-        Copse.inForce(x, "bars if matter = 0 and clock < 6;takes 9 if matter = 1;sways 0 if matter=2 and clock=0");
+        inForce(x, "bars if matter = 0 and clock < 6;takes 9 if matter = 1;sways 0 if matter=2 and clock=0");
         x.terms(3, 1);
         due("0 waits, 2 is no use at 0", x.richest(-1), 12);
         due("first 1", x.richest(0), 1);
         due("then 0", x.richest(1), 0);
         due("then 2", x.richest(2), 2);
-        Copse.inForce(x, "sways 0 if matter = 1 and clock = 0;sways 0 if matter=0 and clock < 3;sways 0 if matter=2");
+        inForce(x, "sways 0 if matter = 1 and clock = 0;sways 0 if matter=0 and clock < 3;sways 0 if matter=2");
         due("the lost pass the time", x.richest(-1), 8);
         due("first 2, that is lost", x.richest(0), 2);
         due("then 0", x.richest(1), 0);
@@ -865,7 +848,7 @@ public final class PromiseTest {
     }
 
     private static void promise24ByClock() {
-        Copse.says("`int byClock(int c)`");
+        says("`int byClock(int c)`");
         DarkCommittee x = willing(6, 9, 5);
         for (int m = 0; m < 6; m++) {
             x.move(m, 0);
@@ -876,7 +859,7 @@ public final class PromiseTest {
         due("2 by 27", x.byClock(27), 10);
         due("4 by 45", x.byClock(45), 20);
         due("5 can't be", x.byClock(48), 20);
-        Copse.inForce(x, "takes 3 if matter = 5;sways 0 if matter = 2");
+        inForce(x, "takes 3 if matter = 5;sways 0 if matter = 2");
         due("5 is done at 48", x.byClock(48), 20);
         due("lost take time, too", x.byClock(47), 15);
         due("c 0", x.byClock(0), 0);
@@ -889,7 +872,7 @@ public final class PromiseTest {
     }
 
     private static void promise25Spoilt() {
-        Copse.says("`int spoilt(int matter, int what)`");
+        says("`int spoilt(int matter, int what)`");
         DarkCommittee x = together(0, 9, 9, 4, 9);
         due("one of three ayes", x.spoilt(0, 0), 1);
         due("the lowest", x.spoilt(0, 1), 2);
@@ -914,7 +897,7 @@ public final class PromiseTest {
     }
 
     private static void promise26Come() {
-        Copse.says("`int come(int matter, int what)`");
+        says("`int come(int matter, int what)`");
         DarkCommittee x = together(9, 0, 0, 9, 9, 9);
         for (int b = 2; b < 6; b++) {
             x.fly(b, -1);
@@ -932,9 +915,9 @@ public final class PromiseTest {
         due("carried now", x.come(0, 0), 0);
         due("none has to come", x.come(0, 1), 0);
         x.favour(1, 0, 4);
-        Copse.inForce(x, "sways 4 if tree = 0 and bird < 5;bars if tree = 0 and bird=5");
+        inForce(x, "sways 4 if tree = 0 and bird < 5;bars if tree = 0 and bird=5");
         due("as they were there", x.come(0, 0), -1);
-        Copse.inForce(x, "sways favour if tree = 0;sways 0 if tree < 0");
+        inForce(x, "sways favour if tree = 0;sways 0 if tree < 0");
         due("not as they are", x.come(0, 1), 8);
         due("what 2", x.come(0, 2), -1);
         due("no matter", x.come(1, 0), -1);
@@ -943,7 +926,7 @@ public final class PromiseTest {
     }
 
     private static void promise27Chain() {
-        Copse.says("`int chain(int from, int to, int i)`");
+        says("`int chain(int from, int to, int i)`");
         DarkCommittee x = fresh();
         x.bird(0, 3);
         x.bird(3, 4);
@@ -975,7 +958,7 @@ public final class PromiseTest {
     }
 
     private static void promise28Ears() {
-        Copse.says("`int ears(int what)`");
+        says("`int ears(int what)`");
         DarkCommittee x = fresh();
         due("none", x.ears(0), 0);
         due("nobody", x.ears(1), 0);
@@ -995,7 +978,7 @@ public final class PromiseTest {
     }
 
     private static void promise29Loudest() {
-        Copse.says("`int loudest(int what)`");
+        says("`int loudest(int what)`");
         DarkCommittee x = fresh();
         due("no birds", x.loudest(0), -1);
         due("no birds", x.loudest(1), -1);
@@ -1014,7 +997,7 @@ public final class PromiseTest {
     }
 
     private static void promise30Nearest() {
-        Copse.says("`int nearest(int bird, int matter)`");
+        says("`int nearest(int bird, int matter)`");
         DarkCommittee x = fresh();
         x.bird(10, 2);
         x.bird(4, 0);
@@ -1034,9 +1017,9 @@ public final class PromiseTest {
         x.fly(0, -1);
         due("away: from 0", x.nearest(0, 0), 2);
         due("still away", x.of(0, 0), -1);
-        Copse.inForce(x, "bars if bird = 0 and tree < 6");
+        inForce(x, "bars if bird = 0 and tree < 6");
         due("where it would sit", x.nearest(0, 0), 6);
-        Copse.inForce(x, "bars if bird = 0");
+        inForce(x, "bars if bird = 0");
         due("nowhere", x.nearest(0, 0), -1);
         due("no bird", x.nearest(3, 0), -1);
         due("no bird -1", x.nearest(-1, 0), -1);
@@ -1045,22 +1028,22 @@ public final class PromiseTest {
     }
 
     private static void promise31Heard() {
-        Copse.says("`int heard(int ayes)`");
+        says("`int heard(int ayes)`");
         DarkCommittee x = together(9, 9);
-        refusedBy("8", x, x.heard(8), -1);
-        refusedBy("-1", x, x.heard(-1), -1);
+        refused("8", x, x.heard(8), -1);
+        refused("-1", x, x.heard(-1), -1);
         x.pass();
         for (int i = 1; i <= 6; i++) {
             due("heard", x.heard(i == 6 ? 7 : 0), i);
         }
-        refusedBy("a seventh", x, x.heard(0), -5);
-        refusedBy("a seventh that can't be", x, x.heard(8), -1);
+        refused("a seventh", x, x.heard(0), -5);
+        refused("a seventh that can't be", x, x.heard(8), -1);
         due("six", x.count(4), 6);
         due("it leaves what can be undone", x.count(6), 1);
     }
 
     private static void promise32Forget() {
-        Copse.says("`int forget()`");
+        says("`int forget()`");
         DarkCommittee x = together(9, 9);
         due("nothing", x.forget(), 0);
         x.heard(0);
@@ -1073,7 +1056,7 @@ public final class PromiseTest {
     }
 
     private static void promise33CanBe() {
-        Copse.says("`int canBe()`");
+        says("`int canBe()`");
         DarkCommittee x = fresh();
         x.bird(1, 1);
         x.bird(1, 1);
@@ -1092,7 +1075,7 @@ public final class PromiseTest {
         due("heard twice, it is no more", x.canBe(), 6);
         x.fly(1, -1);
         due("were there a division now: 1 and 3", x.canBe(), 10);
-        Copse.inForce(x, "bars if bird = 2 and matter = 3");
+        inForce(x, "bars if bird = 2 and matter = 3");
         due("by the law in force now: 1 alone", x.canBe(), 2);
         x.force(-1);
         x.favour(0, 1, 4);
@@ -1110,7 +1093,7 @@ public final class PromiseTest {
     }
 
     private static void canBeOfNobody() {
-        Copse.says("IT CAN BE: MATTERS on which all that was HEARD were so.");
+        says("IT CAN BE: MATTERS on which all that was HEARD were so.");
         DarkCommittee x = fresh();
         x.heard(0);
         due("no matters", x.canBe(), 0);
@@ -1127,7 +1110,7 @@ public final class PromiseTest {
     }
 
     private static void promise34Listen() {
-        Copse.says("`int listen(int what)`");
+        says("`int listen(int what)`");
         DarkCommittee x = fresh();
         due("no birds", x.listen(0), -1);
         x.matter(1, 1);
@@ -1158,7 +1141,7 @@ public final class PromiseTest {
     }
 
     private static void promise35Few() {
-        Copse.says("`long few(int k, int n)`");
+        says("`long few(int k, int n)`");
         DarkCommittee x = fresh();
         due("0 of 3", x.few(1, 3), 729000000000L);
         due("below 2 of 3", x.few(2, 3), 972000000000L);
@@ -1191,10 +1174,10 @@ public final class PromiseTest {
     }
 
     private static void promise36Compare() {
-        Copse.says("`int compare(int law, int matter)`");
+        says("`int compare(int law, int matter)`");
         DarkCommittee x = together(9, 4, 0);
-        Copse.law(x, "sways 9 if bird = 1");
-        Copse.law(x, "bars if bird = 0");
+        law(x, "sways 9 if bird = 1");
+        law(x, "bars if bird = 0");
         x.force(0);
         due("none", x.compare(-1, 0), 1);
         due("that in force", x.compare(0, 0), 2);
@@ -1207,15 +1190,15 @@ public final class PromiseTest {
     }
 
     private static void promise37Mays() {
-        Copse.says("`int mays(int seed, int n)`");
+        says("`int mays(int seed, int n)`");
         DarkCommittee x = fresh();
-        refusedBy("nobody", x, x.mays(1, 1), -3);
+        refused("nobody", x, x.mays(1, 1), -3);
         x.bird(4, 5);
-        refusedBy("no matters", x, x.mays(1, 1), -3);
-        refusedBy("seed -1", x, x.mays(-1, 1), -1);
-        refusedBy("seed beyond", x, x.mays(1000001, 1), -1);
-        refusedBy("n 0", x, x.mays(1, 0), -1);
-        refusedBy("n 61", x, x.mays(1, 61), -1);
+        refused("no matters", x, x.mays(1, 1), -3);
+        refused("seed -1", x, x.mays(-1, 1), -1);
+        refused("seed beyond", x, x.mays(1000001, 1), -1);
+        refused("n 0", x, x.mays(1, 0), -1);
+        refused("n 61", x, x.mays(1, 61), -1);
         x.matter(1, 7);
         x.bird(4, 5);
         x.favour(0, 0, 9);
@@ -1256,7 +1239,7 @@ public final class PromiseTest {
     }
 
     private static void promise38Drawn() {
-        Copse.says("`int drawn(int k, int what)`");
+        says("`int drawn(int k, int what)`");
         DarkCommittee x = together(9, 9);
         due("ahead of any", x.drawn(0, 0), -1);
         x.mays(1, 1);
@@ -1283,10 +1266,10 @@ public final class PromiseTest {
     }
 
     private static void promise39Image() {
-        Copse.says("`int image(int k)`");
+        says("`int image(int k)`");
         DarkCommittee x = fresh();
-        refusedBy("image -1", x, x.image(-1), -1);
-        refusedBy("image 2", x, x.image(2), -1);
+        refused("image -1", x, x.image(-1), -1);
+        refused("image 2", x, x.image(2), -1);
         due("image 0", x.image(0), 0);
         due("image 1", x.image(1), 0);
         x.pass();
@@ -1299,12 +1282,12 @@ public final class PromiseTest {
     }
 
     private static void promise40Back() {
-        Copse.says("`int back(int k)`");
+        says("`int back(int k)`");
         DarkCommittee x = together(9, 9);
-        refusedBy("back 2", x, x.back(2), -1);
-        refusedBy("back -1", x, x.back(-1), -1);
-        refusedBy("not kept", x, x.back(0), -2);
-        Copse.inForce(x, "sways 8");
+        refused("back 2", x, x.back(2), -1);
+        refused("back -1", x, x.back(-1), -1);
+        refused("not kept", x, x.back(0), -2);
+        inForce(x, "sways 8");
         x.heard(2);
         x.terms(2, 4);
         x.move(0, 0);
@@ -1317,15 +1300,15 @@ public final class PromiseTest {
         x.favour(2, 2, 2);
         x.matter(2, 2);
         x.force(-1);
-        Copse.law(x, "sways 2");
+        law(x, "sways 2");
         x.heard(1);
         x.terms(1, 2);
         x.terms(2, 3);
         x.terms(3, 2);
         x.terms(0, 50);
         x.image(1);
-        Copse.law(x, "sways ?");
-        Copse.feed(x, "tape");
+        law(x, "sways ?");
+        feed(x, "tape");
         x.pass();
         due("back", x.back(0), 0);
         int[] counts = {2, 2, 1, 0, 1, 1, 0, 4, 2, 1, 0, 0, 1, 0, 1, 1, 4, 1};
@@ -1339,7 +1322,7 @@ public final class PromiseTest {
         due("fault is not kept", x.fault(), 6);
         due("heard", x.canBe(), 1);
         x.end(0);
-        Copse.inForce(x, "sways 6");
+        inForce(x, "sways 6");
         due("a law in the old one's place", x.of(0, 9), 6);
         due("a bird without favour", x.bird(1, 1) * 10 + x.of(2, 5), 20);
         due("back to the other", x.back(1), 0);
@@ -1358,7 +1341,7 @@ public final class PromiseTest {
     }
 
     private static void backToWhatWasHeard() {
-        Copse.says("BACK to one all that it keeps is as it was then (IMAGES stay).");
+        says("BACK to one all that it keeps is as it was then (IMAGES stay).");
         DarkCommittee x = together(9, 9);
         x.matter(1, 1);
         x.heard(2);
@@ -1376,15 +1359,15 @@ public final class PromiseTest {
     }
 
     private static void promise41Count() {
-        Copse.says("`int count(int what)`");
+        says("`int count(int what)`");
         DarkCommittee x = together(9, 9, 9);
         x.fly(2, -1);
         x.matter(1, 1);
         x.move(0, 0);
         x.divide(0);
         x.heard(2);
-        Copse.law(x, "bars");
-        Copse.feed(x, "abc");
+        law(x, "bars");
+        feed(x, "abc");
         int[] counts = {3, 2, 2, 5, 1, 1, 2, 3, 0, 0, 0, 0, 0, -1, 0, 1, 0, 1};
         for (int what = 0; what < counts.length; what++) {
             due("count " + what, x.count(what), counts[what]);
@@ -1412,7 +1395,7 @@ public final class PromiseTest {
     }
 
     private static void promise42Status() {
-        Copse.says("`int status()`");
+        says("`int status()`");
         DarkCommittee x = fresh();
         due("ahead of any", x.status(), 0);
         due("bird", x.bird(99, 0), -1);
@@ -1441,25 +1424,25 @@ public final class PromiseTest {
         x.drawn(0, 0);
         x.count(0);
         due("none of these is meant", x.status(), -1);
-        refusedBy("matter", x, x.matter(0, 0), -1);
+        refused("matter", x, x.matter(0, 0), -1);
         due("and back to 0", x.bird(0, 0) + x.status(), 0);
-        refusedBy("force", x, x.force(3), -2);
+        refused("force", x, x.force(3), -2);
         due("force none", x.force(-1), -1);
         due("that is no refusal", x.status(), 0);
-        refusedBy("row", x, x.row(), -6);
+        refused("row", x, x.row(), -6);
         due("heard", x.heard(0) - 1 + x.status(), 0);
-        refusedBy("mays", x, x.mays(0, 1), -3);
+        refused("mays", x, x.mays(0, 1), -3);
         due("image", x.image(0) + x.status(), 0);
-        refusedBy("back", x, x.back(1), -2);
+        refused("back", x, x.back(1), -2);
         due("back", x.back(0) + x.status(), 0);
-        refusedBy("orders", x, Copse.orders(x, "divide 0"), -3);
+        refused("orders", x, orders(x, "divide 0"), -3);
         due("pass", x.pass() + x.status(), 0);
-        refusedBy("law", x, x.law(), -6);
+        refused("law", x, x.law(), -6);
         due("favour", x.favour(0, 0, 5) + x.status(), 0);
-        refusedBy("terms", x, x.terms(9, 9), -1);
+        refused("terms", x, x.terms(9, 9), -1);
         due("undo", x.undo() - 3 + x.status(), 0);
-        refusedBy("undo", x, x.undo(), -3);
+        refused("undo", x, x.undo(), -3);
         due("fly", x.fly(0, 1) + x.status(), 0);
-        refusedBy("move", x, x.move(0, 0), -2);
+        refused("move", x, x.move(0, 0), -2);
     }
 }

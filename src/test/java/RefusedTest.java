@@ -2,7 +2,7 @@
  * A call that is REFUSED, and an ask, leaves all as it is: an object that got the call is held against its twin that
  * did not. What the document lets such a call change (the TAPE, FAULT, where ORDERS stopped) is told beside it.
  */
-public final class RefusedTest {
+public final class RefusedTest extends Copse {
     /** Places of what look() sees, beside which twins may differ. */
     private static final int TAPE = 0;
     private static final int FAULT = 1;
@@ -20,48 +20,40 @@ public final class RefusedTest {
     }
 
     public static void main(String[] args) throws IllegalAccessException {
-        Copse.runAll(RefusedTest.class);
-    }
-
-    private static void says(String quote) {
-        Copse.says(quote);
-    }
-
-    private static void due(String what, long got, long want) {
-        Copse.due(what, got, want);
+        runAll(RefusedTest.class);
     }
 
     /** Some of each, with room left. */
     private static DarkCommittee some() {
-        DarkCommittee x = Copse.birds(new int[] {4, 9, 9, 9, 2}, new int[] {6, 9, 9, 9, 7}, new int[] {-1, 3, 9, 0, 9});
-        Copse.feed(x, 8, 1, 5, 5, 5, 5, 5, 5, 99);
+        DarkCommittee x = birds(new int[] {4, 9, 9, 9, 2}, new int[] {6, 9, 9, 9, 7}, new int[] {-1, 3, 9, 0, 9});
+        feed(x, 8, 1, 5, 5, 5, 5, 5, 5, 99);
         x.row();
         x.matter(3, 4);
         x.matter(2, 5);
         x.matter(1, 9);
-        Copse.inForce(x, "sways favour + bird % 2; takes clauses + 1; bars if matter = 2 and bird = 3");
-        Copse.law(x, "sways 9 - favour");
+        inForce(x, "sways favour + bird % 2; takes clauses + 1; bars if matter = 2 and bird = 3");
+        law(x, "sways 9 - favour");
         x.terms(1, 2);
         x.heard(2);
         x.heard(3);
         x.mays(7, 40);
         x.pass();
         x.image(0);
-        Copse.orders(x, "pass; divide 0");
-        Copse.law(x, "takes 2 if ?");
+        orders(x, "pass; divide 0");
+        law(x, "takes 2 if ?");
         x.move(0, 0);
         x.fly(3, 7);
         x.move(1, 1);
         x.divide(0);
-        Copse.feed(x, "bars if bird = 1");
+        feed(x, "bars if bird = 1");
         return x;
     }
 
     /** No room for any more, nothing that can be undone. */
     private static DarkCommittee full() {
-        DarkCommittee x = Copse.willing(7, 6, 9, 5);
+        DarkCommittee x = willing(7, 6, 9, 5);
         for (int i = 0; i < 6; i++) {
-            Copse.law(x, "sways " + (i + 4));
+            law(x, "sways " + (i + 4));
             x.heard(7);
         }
         x.mays(9, 60);
@@ -219,7 +211,7 @@ public final class RefusedTest {
     private static DarkCommittee nobody() {
         DarkCommittee x = new DarkCommittee();
         x.matter(1, 1);
-        Copse.feed(x, 99);
+        feed(x, 99);
         x.row();
         return x;
     }
@@ -238,7 +230,7 @@ public final class RefusedTest {
     private static DarkCommittee someWith(String text) {
         DarkCommittee x = some();
         x.end(0);
-        Copse.feed(x, text);
+        feed(x, text);
         return x;
     }
 
