@@ -41,6 +41,28 @@ public final class BoundsOnPaperTest extends Copse {
         row("rich and poor", moved(new int[] {1, 1}, new int[] {1, 0}), 1, 0);
     }
 
+    private static void richestAskedAnew() {
+        says("(On paper, BIRDS as they are:) The RICHEST order: some MATTERS that are MOVED");
+        DarkCommittee x = moved(new int[] {1, 3}, new int[] {1, 2});
+        row("both", x, 5, 0, 1);
+        for (int b = 0; b < 3; b++) {
+            x.favour(b, 0, 0);
+        }
+        row("0 would be lost", x, 2, 0, 1);
+        x.terms(3, 4);
+        row("no quorum", x, 0);
+        x.terms(3, 3);
+        inForce(x, "bars if matter = 0 and bird = 2 or matter = 1 and clock = 0 and bird = 2");
+        row("neither can be at 0", x, 0);
+        x.force(-1);
+        row("as without a law", x, 2, 0, 1);
+        x.favour(0, 0, 5);
+        x.favour(1, 0, 5);
+        row("both again", x, 5, 0, 1);
+        x.fly(2, -1);
+        row("no quorum again", x, 0);
+    }
+
     private static void richestByForEight() {
         says("each as it can be by then (CLOCK going on as they TAKE), "
                 + "so that those CARRIED by it are most RICH together");
