@@ -1718,7 +1718,7 @@ public final class DarkCommittee {
         }
 
         /** Rows come by MATTERS one behind the other, shorter ones first: only a richer one is better. */
-        void goOn(int clock, int length, int rich, int left) {
+        private void goOn(int clock, int length, int rich, int left) {
             if (rich > bestRich) {
                 bestRich = rich;
                 bestLength = length;
